@@ -270,16 +270,18 @@ public final class LedgerFiles {
         return inode;
     }
 
-    public int remove() throws IllegalStateException, UnsupportedOperationException {
-        int used = useTape();
-        needMounted();
+    // Of remove() and clear(): the inode that the tape means, or what is wrong.
+    private int inodeBelowRoot(int used) {
         if (!path.parse(tape, 0, used)) {
             return NO_PATH;
         }
-        if (path.depth == 0) {
-            return CANNOT_BE;
-        }
-        int inode = folders.walk(path, path.depth);
+        return path.depth == 0 ? CANNOT_BE : folders.walk(path, path.depth);
+    }
+
+    public int remove() throws IllegalStateException, UnsupportedOperationException {
+        int used = useTape();
+        needMounted();
+        int inode = inodeBelowRoot(used);
         if (inode < 0) {
             return inode;
         }
@@ -346,8 +348,11 @@ public final class LedgerFiles {
         return folders.names(old) > 0 ? NOT_EMPTY : 0;
     }
 
-    // Of link() and copy(): what they ask of both paths in the same way; the inode of the first one, or a fault.
-    private int sourceOfNew() {
+    // Of link() and copy(): the file that the first path means, if the second one can be its name; or what is wrong.
+    private int fileForNewName(int used) {
+        if (!splitTape(used)) {
+            return NO_PATH;
+        }
         int inode = folders.walk(path, path.depth);
         if (inode < 0) {
             return inode;
@@ -368,10 +373,7 @@ public final class LedgerFiles {
     public int link() throws IllegalStateException, UnsupportedOperationException {
         int used = useTape();
         needMounted();
-        if (!splitTape(used)) {
-            return NO_PATH;
-        }
-        int inode = sourceOfNew();
+        int inode = fileForNewName(used);
         if (inode < 0) {
             return inode;
         }
@@ -393,13 +395,7 @@ public final class LedgerFiles {
     public int clear() throws IllegalStateException, UnsupportedOperationException {
         int used = useTape();
         needMounted();
-        if (!path.parse(tape, 0, used)) {
-            return NO_PATH;
-        }
-        if (path.depth == 0) {
-            return CANNOT_BE;
-        }
-        int top = folders.walk(path, path.depth);
+        int top = inodeBelowRoot(used);
         if (top < 0) {
             return top;
         }
@@ -442,10 +438,7 @@ public final class LedgerFiles {
     public int copy() throws IllegalStateException, UnsupportedOperationException {
         int used = useTape();
         needMounted();
-        if (!splitTape(used)) {
-            return NO_PATH;
-        }
-        int inode = sourceOfNew();
+        int inode = fileForNewName(used);
         if (inode < 0) {
             return inode;
         }
@@ -659,18 +652,19 @@ public final class LedgerFiles {
             return NO_PATH;
         }
         int inode = folders.walk(path, path.depth);
-        int parent = inode == NO_NAME && (way & 4) != 0 ? folders.walk(path, path.depth - 1) : NONE;
-        if (inode < 0 && parent < 0) {
-            return inode == NO_NAME && (way & 4) != 0 ? parent : inode;
+        boolean made = inode == NO_NAME && (way & 4) != 0;
+        int parent = made ? folders.walk(path, path.depth - 1) : inode;
+        if (parent < 0) {
+            return parent;
         }
-        if (inode > 0 && nodes.kind(inode) == DIRECTORY) {
+        if (!made && nodes.kind(inode) == DIRECTORY) {
             return IS_DIRECTORY;
         }
         int handle = holders.lowestFree();
         if (handle == NONE) {
             return CANNOT_BE;
         }
-        if (inode < 0) {
+        if (made) {
             int fault = faultOfNew(parent);
             if (fault < 0) {
                 return fault;
@@ -979,11 +973,10 @@ public final class LedgerFiles {
         private static final int MOST_WAITING = 256;
         final int blocks;
         final int[] waits;
-        private final byte[][] synced;
-        private final byte[][] values = new byte[MOST_WAITING][BLOCK];
+        final byte[][] synced;
+        final byte[][] values = new byte[MOST_WAITING][BLOCK];
+        final int[] latest;
         private final int[] blockOf = new int[MOST_WAITING];
-        private final int[] latest;
-        private final byte[] beyond = new byte[BLOCK];
         private int first;
         int held;
         boolean on = true;
@@ -1029,9 +1022,6 @@ public final class LedgerFiles {
         }
 
         byte[] row(int b) {
-            if (b < 0 || b >= blocks) {
-                return beyond;
-            }
             return latest[b] == NONE ? synced[b] : values[latest[b]];
         }
 
@@ -1042,7 +1032,8 @@ public final class LedgerFiles {
 
         private void step() {
             if (left == 0) {
-                goDark();
+                left = NONE;
+                on = false;
                 throw new UnsupportedOperationException("the power failed");
             }
             if (left > 0) {
@@ -1188,10 +1179,11 @@ public final class LedgerFiles {
         }
 
         void settle() {
-            for (int n = held; n > 0; n--) {
-                int b = nextAbove(NONE);
+            int b = nextAbove(NONE);
+            for (int n = held; n > 0 && b != NONE; n--) {
                 disk.writeBlock(b, rows[slotOf[b]]);
                 drop(slotOf[b]);
+                b = nextAbove(b);
             }
             disk.syncAll();
         }
@@ -1517,23 +1509,23 @@ public final class LedgerFiles {
             return b >= 0 && b < owned.length;
         }
 
-        // As it was seen ahead of the call, or of the group.
+        // As it was seen ahead of the call, or of the group. (Disk.row() stands here too: so calls stay less deep.)
         private byte[] before(int b) {
             if (queue.rowOf[b] != NONE) {
                 return queue.rows[queue.rowOf[b]];
             }
+            int from = b;
             if (log.entryOf[b] != NONE) {
-                return disk.row(Log.VALUES + log.entryOf[b]);
-            }
-            if (buffer.slotOf[b] != NONE) {
+                from = Log.VALUES + log.entryOf[b];
+            } else if (buffer.slotOf[b] != NONE) {
                 return buffer.rows[buffer.slotOf[b]];
             }
-            return disk.row(b);
+            return disk.latest[from] == NONE ? disk.synced[from] : disk.values[disk.latest[from]];
         }
 
         byte[] see(int b) {
             if (!isBlock(b)) {
-                return disk.row(b);
+                return nowhere;
             }
             return owned[b] ? made[b] : before(b);
         }
@@ -1721,7 +1713,6 @@ public final class LedgerFiles {
 
     // The inodes, and the blocks and tables that they tell.
     private static final class Nodes {
-        private static final int DIRECT_END = DIRECT;
         private static final int FIRST_END = DIRECT + PER_TABLE;
         private final View view;
         private final Queue queue;
@@ -1853,31 +1844,31 @@ public final class LedgerFiles {
 
         // How many numbers lead to a block: its own, and those of the tables on the way.
         private static int levels(int place) {
-            return place < DIRECT_END ? 1 : place < FIRST_END ? 2 : 3;
+            return place < DIRECT ? 1 : place < FIRST_END ? 2 : 3;
         }
 
         // Where the number of a level stands, in the inode (level 0) or in a table.
         private static int offset(int place, int level) {
-            if (place < DIRECT_END) {
+            if (place < DIRECT) {
                 return AT_BLOCKS + 2 * place;
             }
             if (place < FIRST_END) {
-                return level == 0 ? AT_FIRST : 2 * (place - DIRECT_END);
+                return level == 0 ? AT_FIRST : 2 * (place - DIRECT);
             }
             int far = place - FIRST_END;
             return level == 0 ? AT_SECOND : level == 1 ? 2 * (far / PER_TABLE) : 2 * (far % PER_TABLE);
         }
 
         private static int lastBeside(int place) {
-            if (place < DIRECT_END) {
-                return DIRECT_END - 1;
+            if (place < DIRECT) {
+                return DIRECT - 1;
             }
-            return place - (place - DIRECT_END) % PER_TABLE + PER_TABLE - 1;
+            return place - (place - DIRECT) % PER_TABLE + PER_TABLE - 1;
         }
 
         // Where a place's own number stands in the block that has it.
         private static int spot(int inode, int place) {
-            return offset(place, levels(place) - 1) + (place < DIRECT_END ? start(inode) : 0);
+            return offset(place, levels(place) - 1) + (place < DIRECT ? start(inode) : 0);
         }
 
         // The block of a place (above 0), the block that has its number (above 1), and so on; 0 if it is a hole.
@@ -2007,7 +1998,7 @@ public final class LedgerFiles {
         int tablesTelling(int inode, int from, int to) {
             int n = 0;
             int end = Math.min(to, blocksFor(size(inode)));
-            for (int place = Math.max(from, DIRECT_END); place < end; place++) {
+            for (int place = Math.max(from, DIRECT); place < end; place++) {
                 int holder = reach(inode, place, 1);
                 if (holder == 0 || Disk.two(view.see(holder), spot(inode, place)) != 0) {
                     n += holder == 0 ? 0 : 1;
@@ -2019,7 +2010,7 @@ public final class LedgerFiles {
 
         // Whether the table that tells a place stays when only the places below keep do.
         private static boolean tableStays(int place, int keep) {
-            return place < DIRECT_END || keep > place - (place - DIRECT_END) % PER_TABLE;
+            return place < DIRECT || keep > place - (place - DIRECT) % PER_TABLE;
         }
 
         // Frees the blocks of places (to is the one behind them): how many.
@@ -2046,7 +2037,7 @@ public final class LedgerFiles {
 
         private void cutTables(int inode, int keep) {
             int first = firstTable(inode);
-            if (first != 0 && keep <= DIRECT_END) {
+            if (first != 0 && keep <= DIRECT) {
                 view.loosen(first);
                 Disk.setTwo(view.own(home(inode)), start(inode) + AT_FIRST, 0);
             }
@@ -2119,7 +2110,7 @@ public final class LedgerFiles {
         int letterAt(int directory, int slot, int i) {
             byte[] row = rowOf(directory, slot);
             int at = startOf(slot);
-            return i < row[at + AT_LENGTH] ? row[at + AT_NAME + i] & 255 : NONE;
+            return i < row[at + AT_LENGTH] && i < Path.LONGEST ? row[at + AT_NAME + i] & 255 : NONE;
         }
 
         long hashName(long h, int directory, int slot) {
@@ -2131,7 +2122,7 @@ public final class LedgerFiles {
             return h;
         }
 
-        // Slot of the k-th name, NONE if there is none; all names are counted into found.
+        // The slot of name k, NONE if there is none.
         int slotOfName(int directory, int k) {
             if (nodes.kind(directory) != DIRECTORY || k < 0) {
                 return NONE;
@@ -2245,6 +2236,9 @@ public final class LedgerFiles {
         }
 
         void wipe(int directory, int slot) {
+            if (slot < 0) {
+                return;
+            }
             Arrays.fill(ownRowOf(directory, slot), startOf(slot), startOf(slot) + SLOT, (byte) 0);
         }
     }
