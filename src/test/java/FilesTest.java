@@ -1,0 +1,486 @@
+/** Promises 14 to 25: files, by inodes. */
+public final class FilesTest {
+    private static final int[] NO_INODES = {0, -1, 65, 5, Integer.MIN_VALUE, Integer.MAX_VALUE};
+
+    /** Inode 2 is a directory, inode 3 a file. */
+    private static LedgerFiles withFile(int blocks, int buffer, int group) {
+        LedgerFiles x = Kit.mounted(blocks, buffer, group);
+        Kit.directory(x, "/d");
+        Kit.file(x, "/f");
+        return x;
+    }
+
+    private static void promise14Write() {
+        LedgerFiles x = withFile(128, 8, 4);
+        Kit.due("write", Kit.write(x, 3, 0, "hello"), 5);
+        Kit.due("text", Kit.text(x, 3), "hello");
+        Kit.due("over it", Kit.write(x, 3, 1, "a"), 1);
+        Kit.due("text", Kit.text(x, 3), "hallo");
+        Kit.due("size stays", x.about(3, 1), 5);
+        Kit.due("over its end", Kit.write(x, 3, 4, "o!"), 2);
+        Kit.due("text", Kit.text(x, 3), "hallo!");
+        Kit.due("behind a hole", Kit.write(x, 3, 300, "z"), 1);
+        Kit.due("size", x.about(3, 1), 301);
+        Kit.due("the hole", x.where(3, 1) * 256 + x.read(3, 200), 0);
+        Kit.due("the block behind", Kit.notZero(x, x.where(3, 2)), 1);
+        Kit.due("over two blocks", Kit.write(x, 3, 126, "abcd"), 4);
+        Kit.due("its bytes", (char) x.read(3, 126) + "" + (char) x.read(3, 129), "ad");
+        int changes = x.count(3);
+        Kit.due("no tables change", Kit.write(x, 3, 126, "ABCD"), 4);
+        Kit.due("no change", x.count(3), changes);
+        Kit.due("without bytes", x.write(3, 400000), 0);
+        Kit.due("size then", x.about(3, 1), 301);
+        Kit.due("the last byte there can be", Kit.write(x, 3, 399999, "x"), 1);
+        Kit.due("size", x.about(3, 1), 400000);
+        Kit.due("check", x.check(), 0);
+    }
+
+    private static void promise14Wrong() {
+        LedgerFiles x = withFile(128, 8, 4);
+        for (int inode : NO_INODES) {
+            Kit.due("write of inode " + inode, Kit.write(x, inode, -1, "a"), -11);
+        }
+        Kit.due("a directory", Kit.write(x, 2, -1, "a"), -4);
+        Kit.due("the root", Kit.write(x, 1, 0, "a"), -4);
+        Kit.due("below 0", Kit.write(x, 3, -1, "a"), -10);
+        Kit.due("below 0 without bytes", x.write(3, -1), -10);
+        Kit.due("beyond 400,000 without bytes", x.write(3, 400001), -10);
+        Kit.due("ends beyond", Kit.write(x, 3, 399999, "ab"), -10);
+        Kit.due("the highest int", Kit.write(x, 3, Integer.MAX_VALUE, "ab"), -10);
+        Kit.due("size", x.about(3, 1), 0);
+        Kit.due("the tape", x.count(12), 0);
+        x.unmount();
+        Kit.tape(x, "abc");
+        Kit.call("write() when not mounted", Kit.STATE, () -> x.write(3, 0));
+        Kit.due("the tape behind that", x.count(12), 0);
+    }
+
+    private static void promise14NoBlocks() {
+        LedgerFiles x = withFile(128, 8, 1);
+        int blocks = x.count(0);
+        for (int at = 0; at < 8 * 128; at += 128) {
+            x.fill(3, at, 128, 1);
+        }
+        x.truncate(3, 0);
+        int other = Kit.file(x, "/o");
+        for (int at = 0; x.count(0) > 4; at += 128) {
+            x.fill(other, at, 128, 1);
+        }
+        Kit.due("blocks at first", blocks, 66);
+        Kit.due("a far block wants two tables, two of them three", Kit.write(x, 3, 9216 + 127, "ab"), 2);
+        Kit.due("none is free", x.count(0), 0);
+        x.truncate(3, 0);
+        Kit.due("three are too many here", x.fill(3, 9216, 257, 1), -7);
+        Kit.due("none was taken", x.count(0), 4);
+        Kit.due("over what is there none is wanted", x.fill(other, 0, 1000, 9), 1000);
+        Kit.due("check", x.check(), 0);
+    }
+
+    private static void promise14TablesFirst() {
+        LedgerFiles x = withFile(200, 8, 4);
+        Kit.write(x, 3, 9216, "a");
+        Kit.due("second table", Kit.seen(x, 45, 64 + 30, 2), 62);
+        Kit.due("the table that it tells", Kit.seen(x, 62, 0, 2), 63);
+        Kit.due("the block", x.where(3, 72), 64);
+        Kit.write(x, 3, 1024, "a");
+        Kit.due("first table", Kit.seen(x, 45, 64 + 28, 2), 65);
+        Kit.due("its block", x.where(3, 8), 66);
+        Kit.write(x, 3, 7 * 128, "abc");
+        Kit.due("a block of the inode", x.where(3, 7), 67);
+        Kit.write(x, 3, 9216 + 64 * 128, "a");
+        Kit.due("the next table", Kit.seen(x, 62, 2, 2), 68);
+        Kit.due("the last of the first table", x.where(3, 71), 0);
+    }
+
+    private static void promise14Directly() {
+        LedgerFiles x = withFile(128, 4, 16);
+        int writes = x.count(8);
+        for (int i = 0; i < 4; i++) {
+            Kit.write(x, 3, 128 * i, "x");
+        }
+        Kit.due("no writes of the disk", x.count(8) - writes, 0);
+        Kit.due("in the buffer", x.count(6), 4);
+        Kit.write(x, 3, 0, "y");
+        Kit.write(x, 3, 512, "z");
+        Kit.due("one block went out of the full buffer", x.count(8) - writes, 1);
+        Kit.due("it was put longest ago", x.byteAt(x.where(3, 1), 0), (int) 'x');
+        Kit.due("the one that was put again is not", x.byteAt(x.where(3, 0), 0), 0);
+    }
+
+    private static void promise14LogHasIt() {
+        // a directory's block is in the log; when a file has it, queue and log are emptied ahead of its bytes
+        LedgerFiles x = Kit.mounted(128, 8, 1);
+        Kit.directory(x, "/d");
+        Kit.file(x, "/d/f");
+        Kit.remove(x, "/d/f");
+        int block = x.where(2, 0);
+        Kit.remove(x, "/d");
+        int f = Kit.file(x, "/g");
+        Kit.due("entries", x.count(4) > 0, true);
+        int turn = x.count(5);
+        Kit.write(x, f, 0, "bytes");
+        Kit.due("the block is the same", x.where(f, 0), block);
+        Kit.due("the log was applied, then the change flushed", x.count(5) - turn, 2);
+        Kit.due("its entries are those of the change", x.count(4), 2);
+        Kit.due("text", Kit.text(x, f), "bytes");
+    }
+
+    private static void promise15Fill() {
+        LedgerFiles x = withFile(200, 8, 4);
+        Kit.due("fill", x.fill(3, 10, 2000, 77), 2000);
+        for (int i = 0; i < 2000; i++) {
+            if (x.read(3, 10 + i) != (77 + i * i + (i >> 5) & 255)) {
+                Kit.due("byte " + i, x.read(3, 10 + i), 77 + i * i + (i >> 5) & 255);
+            }
+        }
+        Kit.due("size", x.about(3, 1), 2010);
+        Kit.due("a wrapping seed", x.fill(3, 0, 3, Integer.MAX_VALUE), 3);
+        Kit.due("its bytes", x.read(3, 0) * 65536 + x.read(3, 1) * 256 + x.read(3, 2), 255 * 65536 + 3);
+        Kit.due("no bytes", x.fill(3, 400000, 0, 1), 0);
+        Kit.due("no bytes beyond", x.fill(3, 400001, 0, 1), -10);
+        Kit.due("beyond", x.fill(3, 399999, 2, 1), -10);
+        Kit.due("below 0", x.fill(3, -1, 2, 1), -10);
+        for (int n : new int[] {-1, 2001, Integer.MIN_VALUE, Integer.MAX_VALUE}) {
+            Kit.call("fill of n " + n, Kit.ARGUMENT, () -> x.fill(99, -1, n, 1));
+        }
+        for (int inode : NO_INODES) {
+            Kit.due("fill of inode " + inode, x.fill(inode, -1, 1, 1), -11);
+        }
+        Kit.due("a directory", x.fill(2, -1, 1, 1), -4);
+        Kit.tape(x, "tape");
+        x.fill(3, 0, 1, 1);
+        Kit.due("the tape stays", x.count(12), 4);
+        x.unmount();
+        Kit.call("fill() when not mounted", Kit.STATE, () -> x.fill(3, 0, -1, 1));
+    }
+
+    private static void promise16Truncate() {
+        LedgerFiles x = withFile(200, 8, 16);
+        int free = x.count(0);
+        Kit.write(x, 3, 0, "hello");
+        Kit.due("less", x.truncate(3, 2), 0);
+        Kit.due("text", Kit.text(x, 3), "he");
+        Kit.due("more", x.truncate(3, 6), 0);
+        Kit.due("text", Kit.text(x, 3), "he\0\0\0\0");
+        Kit.due("to the end", x.truncate(3, 400000), 0);
+        Kit.due("a byte of the hole", x.read(3, 399999), 0);
+        Kit.due("blocks", x.about(3, 3), 1);
+        Kit.due("nothing", x.truncate(3, 0), 0);
+        Kit.due("all is free", x.count(0), free);
+        int changes = x.count(3);
+        Kit.due("the same size", x.truncate(3, 0), 0);
+        Kit.due("no change", x.count(3), changes);
+        for (int inode : NO_INODES) {
+            Kit.due("truncate of inode " + inode, x.truncate(inode, -1), -11);
+        }
+        Kit.due("a directory", x.truncate(2, -1), -4);
+        Kit.due("below 0", x.truncate(3, -1), -10);
+        Kit.due("beyond 400,000", x.truncate(3, 400001), -10);
+        x.crash();
+        Kit.call("truncate() without power", Kit.STATE, () -> x.truncate(3, 0));
+    }
+
+    private static void promise16Tables() {
+        LedgerFiles x = withFile(300, 8, 16);
+        Kit.write(x, 3, 0, "a");
+        Kit.write(x, 3, 1024, "b");
+        Kit.write(x, 3, 9216, "c");
+        Kit.write(x, 3, 9216 + 8192, "d");
+        Kit.due("4 blocks, 4 tables", x.about(3, 3), 8);
+        int second = (int) Kit.seen(x, 45, 64 + 30, 2);
+        x.truncate(3, 9216 + 8192);
+        Kit.due("the last block and its table are free", x.about(3, 3), 6);
+        Kit.due("its number in the second table", Kit.seen(x, second, 2, 2), 0);
+        x.truncate(3, 9217);
+        Kit.due("nothing more", x.about(3, 3), 6);
+        x.truncate(3, 9216);
+        Kit.due("second table and all of it", x.about(3, 3), 3);
+        Kit.due("its number in the inode", Kit.seen(x, 45, 64 + 30, 2), 0);
+        Kit.due("it keeps its bytes", Kit.seen(x, second, 0, 2) != 0, true);
+        x.truncate(3, 1025);
+        Kit.due("the first table stays for a byte", x.about(3, 3), 3);
+        x.truncate(3, 1024);
+        Kit.due("then it is free", x.about(3, 3), 1);
+        Kit.due("its number in the inode", Kit.seen(x, 45, 64 + 28, 2), 0);
+        Kit.due("check", x.check(), 0);
+        Kit.write(x, 3, 1024, "b");
+        x.punch(3, 1024, 128);
+        Kit.due("a table without blocks", x.about(3, 3), 2);
+        x.truncate(3, 1024);
+        Kit.due("is free, too", x.about(3, 3), 1);
+        Kit.due("check", x.check(), 0);
+    }
+
+    private static void promise16ZerosBehindTheEnd() {
+        LedgerFiles x = withFile(128, 8, 16);
+        x.fill(3, 0, 300, 1);
+        x.sync(3);
+        int block = x.where(3, 1);
+        x.truncate(3, 130);
+        Kit.due("the last block is in the buffer again", x.count(6), 1);
+        Kit.due("its bytes", Kit.seen(x, block, 0, 8) >> 16, 0);
+        x.sync(3);
+        x.truncate(3, 128);
+        Kit.due("at a block's end nothing is written", x.count(6), 0);
+        x.truncate(3, 1000);
+        x.truncate(3, 900);
+        Kit.due("nor in a hole", x.count(6), 0);
+    }
+
+    private static void promise17Mark() {
+        LedgerFiles x = withFile(128, 8, 16);
+        Kit.due("mark", x.mark(3, -2), 0);
+        Kit.due("mark of the file", x.about(3, 2), -2);
+        Kit.due("of a directory", x.mark(2, Integer.MAX_VALUE), 0);
+        Kit.due("its mark", x.about(2, 2), Integer.MAX_VALUE);
+        Kit.due("of the root", x.mark(1, Integer.MIN_VALUE), 0);
+        Kit.due("on the block", Kit.seen(x, 45, 8, 4), 0x80000000L);
+        int changes = x.count(3);
+        x.mark(1, Integer.MIN_VALUE);
+        Kit.due("the same makes no change", x.count(3), changes);
+        for (int inode : NO_INODES) {
+            Kit.due("mark of inode " + inode, x.mark(inode, 1), -11);
+        }
+        x.crash();
+        Kit.call("mark() without power", Kit.STATE, () -> x.mark(1, 1));
+    }
+
+    private static void promise18Punch() {
+        LedgerFiles x = withFile(200, 64, 16);
+        x.fill(3, 0, 1920, 5);
+        int free = x.count(0);
+        Kit.due("whole blocks", x.punch(3, 128, 256), 2);
+        Kit.due("they are holes", x.where(3, 1) + x.where(3, 2), 0);
+        Kit.due("free", x.count(0) - free, 2);
+        Kit.due("they rest", x.count(2), 2);
+        Kit.due("size", x.about(3, 1), 1920);
+        Kit.due("again", x.punch(3, 128, 256), 0);
+        int before = x.read(3, 384);
+        Kit.due("parts of two blocks", x.punch(3, 400, 200), 0);
+        Kit.due("0 in them", x.read(3, 400) + x.read(3, 599), 0);
+        Kit.due("not beside them", x.read(3, 384) == before && x.read(3, 600) != 0, true);
+        Kit.due("a part within one block", x.punch(3, 1800, 20), 0);
+        Kit.due("0 in it", x.read(3, 1800) + x.read(3, 1819), 0);
+        Kit.due("one block of the first table", x.punch(3, 1030, 250), 1);
+        Kit.due("which one", x.where(3, 9) == 0 && x.where(3, 8) != 0, true);
+        Kit.due("no bytes", x.punch(3, 0, 0), 0);
+        Kit.due("to the end", x.punch(3, 0, 400000), 12);
+        Kit.due("its table stays", x.about(3, 3), 1);
+        Kit.due("size", x.about(3, 1), 1920);
+        Kit.due("check", x.check(), 0);
+    }
+
+    private static void promise18Edges() {
+        LedgerFiles x = withFile(200, 64, 16);
+        x.fill(3, 0, 200, 5);
+        x.sync(3);
+        Kit.due("a range behind the size in its last block", x.punch(3, 200, 50), 0);
+        Kit.due("is not written", x.count(6), 0);
+        Kit.due("a range over the size", x.punch(3, 190, 50), 0);
+        Kit.due("is written", x.count(6), 1);
+        Kit.due("blocks stay", x.about(3, 3), 2);
+        x.sync(3);
+        Kit.due("two parts of a file that ends between", x.punch(3, 120, 300), 1);
+        Kit.due("only the first is written", x.count(6), 1);
+        x.begin();
+        Kit.write(x, 3, 0, "in a group, behind the size later");
+        x.end();
+        for (int inode : NO_INODES) {
+            Kit.due("punch of inode " + inode, x.punch(inode, -1, 1), -11);
+        }
+        Kit.due("a directory", x.punch(2, -1, 1), -4);
+        Kit.due("at below 0", x.punch(3, -1, 1), -10);
+        Kit.due("n below 0", x.punch(3, 1, -1), -10);
+        Kit.due("beyond", x.punch(3, 1, 400000), -10);
+        Kit.due("the highest ints", x.punch(3, Integer.MAX_VALUE, Integer.MAX_VALUE), -10);
+        Kit.due("up to 400,000", x.punch(3, 399999, 1), 0);
+        x.crash();
+        Kit.call("punch() without power", Kit.STATE, () -> x.punch(3, 0, 1));
+    }
+
+    private static void promise18TooManyTables() {
+        LedgerFiles x = withFile(300, 8, 16);
+        x.fill(3, 1024, 1, 1);
+        for (int j = 0; j < 32; j++) {
+            x.fill(3, 9216 + 8192 * j, 1, 1);
+        }
+        x.fill(3, 0, 1, 1);
+        Kit.due("numbers in 33 tables", x.punch(3, 0, 400000), -12);
+        x.begin();
+        Kit.due("in a group, too", x.punch(3, 0, 400000), -12);
+        x.end();
+        Kit.due("blocks", x.about(3, 3), 34 + 34);
+        Kit.due("numbers in 32 tables", x.punch(3, 2048, 390000), 32);
+        Kit.due("numbers in one, and the inode", x.punch(3, 0, 400000), 2);
+        Kit.due("tables", x.about(3, 3), 34);
+        Kit.due("check", x.check(), 0);
+    }
+
+    private static void promise19Hold() {
+        LedgerFiles x = withFile(128, 8, 16);
+        for (int i = 1; i <= 100; i++) {
+            Kit.due("hold " + i, x.hold(3), i);
+        }
+        Kit.due("hold 101", x.hold(3), -9);
+        Kit.due("a directory", x.hold(2), 1);
+        Kit.due("the root", x.hold(1), 1);
+        int h = Kit.open(x, "/f", 0);
+        Kit.due("handles are not counted", x.hold(3), -9);
+        Kit.due("but here", x.about(3, 6), 101);
+        x.close(h);
+        for (int inode : NO_INODES) {
+            Kit.due("hold of inode " + inode, x.hold(inode), -11);
+        }
+        x.unmount();
+        Kit.call("hold() when not mounted", Kit.STATE, () -> x.hold(3));
+    }
+
+    private static void promise20Release() {
+        LedgerFiles x = withFile(128, 8, 16);
+        Kit.due("not held", x.release(3), -9);
+        int h = Kit.open(x, "/f", 0);
+        Kit.due("held by a handle alone", x.release(3), -9);
+        x.hold(3);
+        x.hold(3);
+        Kit.due("once less", x.release(3), 1);
+        Kit.remove(x, "/f");
+        Kit.due("lost", x.count(15), 1);
+        Kit.due("not by hold() any more", x.release(3), 0);
+        Kit.due("the handle holds it", x.about(3, 5), 0);
+        x.hold(3);
+        x.close(h);
+        int changes = x.count(3);
+        Kit.due("nothing holds it any more", x.release(3), 0);
+        Kit.due("it went", x.about(3, 0), -11);
+        Kit.due("a change", x.count(3) - changes, 1);
+        for (int inode : NO_INODES) {
+            Kit.due("release of inode " + inode, x.release(inode), -11);
+        }
+        x.hold(2);
+        Kit.due("a name stays", x.release(2), 0);
+        Kit.due("so does the inode", x.about(2, 0), 2);
+        x.crash();
+        Kit.call("release() without power", Kit.STATE, () -> x.release(2));
+    }
+
+    private static void promise21Read() {
+        LedgerFiles x = withFile(128, 8, 16);
+        x.feed(0xff800001, 0, 0, 0, 0);
+        x.write(3, 126);
+        Kit.due("a byte of the hole", x.read(3, 0), 0);
+        Kit.due("255", x.read(3, 126), 255);
+        Kit.due("128", x.read(3, 127), 128);
+        Kit.due("the next block", x.read(3, 129), 1);
+        Kit.due("the last", x.read(3, 145), 0);
+        Kit.due("behind it", x.read(3, 146), -1);
+        Kit.due("below 0", x.read(3, -1), -1);
+        Kit.due("the highest int", x.read(3, Integer.MAX_VALUE), -1);
+        Kit.due("a directory", x.read(1, 0), -1);
+        for (int inode : NO_INODES) {
+            Kit.due("read of inode " + inode, x.read(inode, 0), -1);
+        }
+        x.unmount();
+        Kit.call("read() when not mounted", Kit.STATE, () -> x.read(3, 0));
+    }
+
+    private static void promise22About() {
+        LedgerFiles x = withFile(128, 8, 16);
+        x.fill(3, 0, 1100, 1);
+        x.mark(3, 9);
+        Kit.link(x, "/f", "/d/g");
+        Kit.file(x, "/d/h");
+        x.hold(3);
+        Kit.open(x, "/f", 0);
+        int[][] due = {{1, 2, 128, 0, 1, 2, 1, 0}, {2, 2, 128, 0, 1, 2, 1, 0}, {3, 1, 1100, 9, 10, 0, 2, 2}};
+        for (int[] d : due) {
+            for (int what = 0; what < 7; what++) {
+                Kit.due("about(" + d[0] + ", " + what + ")", x.about(d[0], what), d[1 + what]);
+            }
+        }
+        Kit.call("what -1", Kit.ARGUMENT, () -> x.about(99, -1));
+        Kit.call("what 7", Kit.ARGUMENT, () -> x.about(3, 7));
+        for (int inode : NO_INODES) {
+            Kit.due("about inode " + inode, x.about(inode, 0), -11);
+        }
+        x.crash();
+        Kit.call("about() without power", Kit.STATE, () -> x.about(3, 7));
+    }
+
+    private static void promise23Where() {
+        LedgerFiles x = withFile(128, 8, 16);
+        Kit.due("the root's block", x.where(1, 0), 61);
+        Kit.due("behind a directory's size", x.where(1, 1), 0);
+        Kit.write(x, 3, 128 * 3124, "far");
+        Kit.due("a hole", x.where(3, 0), 0);
+        Kit.due("the last there can be", x.where(3, 3124), 64);
+        Kit.due("behind the size", x.where(3, 3125), 0);
+        Kit.due("the last k", x.where(3, 4167), 0);
+        Kit.call("k 4168", Kit.ARGUMENT, () -> x.where(99, 4168));
+        Kit.call("k -1", Kit.ARGUMENT, () -> x.where(3, -1));
+        for (int inode : NO_INODES) {
+            Kit.due("where of inode " + inode, x.where(inode, 0), -11);
+        }
+        x.unmount();
+        Kit.call("where() when not mounted", Kit.STATE, () -> x.where(3, -1));
+    }
+
+    private static void promise24Entry() {
+        LedgerFiles x = withFile(128, 8, 16);
+        Kit.file(x, "/g");
+        Kit.remove(x, "/d");
+        Kit.due("name 0", x.entry(1, 0), 3);
+        Kit.due("name 1", x.entry(1, 1), 4);
+        Kit.call("name 2", Kit.NO_ELEMENT, () -> x.entry(1, 2));
+        Kit.call("name -1", Kit.NO_ELEMENT, () -> x.entry(1, -1));
+        Kit.call("of a file", Kit.NO_ELEMENT, () -> x.entry(3, 0));
+        for (int inode : NO_INODES) {
+            Kit.call("entry of inode " + inode, Kit.NO_ELEMENT, () -> x.entry(inode, 0));
+        }
+        x.crash();
+        Kit.call("entry() without power", Kit.STATE, () -> x.entry(1, 2));
+    }
+
+    private static void promise25Letter() {
+        LedgerFiles x = withFile(128, 8, 16);
+        Kit.file(x, "/thirteen-13-z");
+        Kit.due("first", x.letter(1, 2, 0), (int) 't');
+        Kit.due("last", x.letter(1, 2, 12), (int) 'z');
+        Kit.due("behind the end", x.letter(1, 2, 13), -1);
+        Kit.due("far behind", x.letter(1, 2, Integer.MAX_VALUE), -1);
+        Kit.due("behind a short one", x.letter(1, 0, 1), -1);
+        Kit.call("i -1", Kit.NO_ELEMENT, () -> x.letter(1, 2, -1));
+        Kit.call("name 3", Kit.NO_ELEMENT, () -> x.letter(1, 3, 0));
+        Kit.call("name -1", Kit.NO_ELEMENT, () -> x.letter(1, -1, 0));
+        Kit.call("of a file", Kit.NO_ELEMENT, () -> x.letter(3, 0, 0));
+        for (int inode : NO_INODES) {
+            Kit.call("letter of inode " + inode, Kit.NO_ELEMENT, () -> x.letter(inode, 0, 0));
+        }
+        x.unmount();
+        Kit.call("letter() when not mounted", Kit.STATE, () -> x.letter(1, 3, 0));
+    }
+
+    public static void main(String[] args) {
+        promise14Write();
+        promise14Wrong();
+        promise14NoBlocks();
+        promise14TablesFirst();
+        promise14Directly();
+        promise14LogHasIt();
+        promise15Fill();
+        promise16Truncate();
+        promise16Tables();
+        promise16ZerosBehindTheEnd();
+        promise17Mark();
+        promise18Punch();
+        promise18Edges();
+        promise18TooManyTables();
+        promise19Hold();
+        promise20Release();
+        promise21Read();
+        promise22About();
+        promise23Where();
+        promise24Entry();
+        promise25Letter();
+        Kit.done();
+    }
+}

@@ -1,0 +1,236 @@
+/** Promises 4 to 6: format, mount and unmount. */
+public final class WholeTest {
+    private static int sumOfSix(int turn) {
+        int[] six = {0, 0, turn & 255, turn >> 8 & 255, turn >> 16 & 255, turn >> 24 & 255};
+        int h = 7;
+        for (int b : six) {
+            h = h * 31 + b;
+        }
+        return h;
+    }
+
+    private static void promise4Layout() {
+        LedgerFiles x = new LedgerFiles(201, 8, 4);
+        Kit.due("format()", x.format(), 140);
+        Kit.due("magic", Kit.onDisk(x, 0, 0, 4), 1414874188);
+        Kit.due("N", Kit.onDisk(x, 0, 4, 2), 201);
+        Kit.due("entries and inodes", Kit.onDisk(x, 0, 6, 2), 40 + 256 * 64);
+        Kit.due("rest of block 0", Kit.onDisk(x, 0, 8, 8), 0);
+        Kit.due("entries and TURN", Kit.onDisk(x, 1, 0, 6), 0);
+        Kit.due("SUM", (int) Kit.onDisk(x, 1, 6, 4), sumOfSix(0));
+        for (int k = 0; k < 1024; k++) {
+            int bit = x.byteAt(43, k / 8) >> k % 8 & 1;
+            if (bit != (k < 61 || k >= 201 ? 1 : 0)) {
+                Kit.due("bit of block " + k, bit, 1 - bit);
+            }
+        }
+        Kit.due("inodes used", Kit.onDisk(x, 44, 0, 8), 1);
+        Kit.due("root", Kit.onDisk(x, 45, 0, 8), 0x0102);
+        Kit.due("root's mark and blocks", Kit.onDisk(x, 45, 8, 8), 0);
+        Kit.due("inode 2", Kit.onDisk(x, 45, 32, 8), 0);
+    }
+
+    private static void promise4Steps() {
+        int[][] due = {{64, 0}, {19, 0}, {8, 11}, {4, 15}};
+        for (int[] d : due) {
+            LedgerFiles x = new LedgerFiles(128, d[0], 4);
+            x.format();
+            Kit.due("writes of format() with M " + d[0], x.count(8), 21);
+            Kit.due("syncs", x.count(9), 3);
+            Kit.due("written out of the full buffer", x.count(11), d[1]);
+            Kit.due("in the buffer", x.count(6), 0);
+            Kit.due("mounted", x.count(13), 0);
+        }
+    }
+
+    private static void promise4PowerFails() {
+        for (int steps = 0; steps < 24; steps++) {
+            LedgerFiles x = new LedgerFiles(128, 8, 4);
+            x.format();
+            x.power(steps);
+            Kit.call("format() with power for " + steps + " steps", Kit.POWER, x::format);
+            Kit.due("power", x.count(14), 0);
+            int waited = x.restart(1);
+            Kit.due("mount tells a whole format", waited < 20, true);
+        }
+        LedgerFiles y = new LedgerFiles(128, 8, 4);
+        y.power(24);
+        Kit.call("format() with power for 24 steps", 67, y::format);
+        // the first step of a second format may be kept or not; behind its sync there is no file system
+        y.power(2);
+        Kit.call("format() once more", Kit.POWER, y::format);
+        y.restart(0);
+        Kit.call("mount() behind half a format", Kit.ARGUMENT, y::mount);
+        Kit.call("format() behind that", 67, y::format);
+        Kit.call("mount() behind that", 0, y::mount);
+    }
+
+    private static void promise4OtherBlocksStay() {
+        LedgerFiles x = Kit.mounted(128, 8, 4);
+        int inode = Kit.file(x, "/f");
+        Kit.write(x, inode, 0, "old bytes");
+        int block = x.where(inode, 0);
+        x.unmount();
+        x.format();
+        Kit.due("a byte from before", x.byteAt(block, 4), (int) 'b');
+        x.mount();
+        Kit.due("names behind format()", x.about(1, 4), 0);
+        Kit.due("blocks free behind format()", x.count(0), 67);
+        Kit.due("TURN behind format()", x.count(5), 0);
+    }
+
+    private static void promise4State() {
+        LedgerFiles x = Kit.mounted(128, 8, 4);
+        Kit.call("format() while mounted", Kit.STATE, x::format);
+        x.crash();
+        Kit.call("format() without power", Kit.STATE, x::format);
+    }
+
+    private static void promise5Head() {
+        LedgerFiles x = new LedgerFiles(128, 8, 4);
+        Kit.call("mount() of a new disk", Kit.ARGUMENT, x::mount);
+        Kit.due("mounted", x.count(13), 0);
+        x.format();
+        Kit.call("mount()", 0, x::mount);
+        Kit.call("mount() again", Kit.STATE, x::mount);
+        x.crash();
+        Kit.call("mount() without power", Kit.STATE, x::mount);
+        x.restart(5);
+        Kit.call("mount() with power", 0, x::mount);
+    }
+
+    private static void promise5Log() {
+        LedgerFiles x = Kit.mounted(128, 8, 1);
+        Kit.file(x, "/f");
+        Kit.due("entries", x.count(4), 4);
+        Kit.due("TURN", x.count(5), 1);
+        x.crash();
+        x.restart(7);
+        int writes = x.count(8);
+        int syncs = x.count(9);
+        Kit.call("mount() with a log", 4, x::mount);
+        Kit.due("writes of applying it", x.count(8) - writes, 5);
+        Kit.due("syncs of applying it", x.count(9) - syncs, 2);
+        Kit.due("entries", x.count(4), 0);
+        Kit.due("TURN", x.count(5), 2);
+        Kit.due("SUM without entries", (int) Kit.onDisk(x, 1, 6, 4), sumOfSix(2));
+        Kit.due("find", Kit.find(x, "/f"), 2);
+        x.unmount();
+        writes = x.count(8);
+        Kit.call("mount() without a log", 0, x::mount);
+        Kit.due("writes of that", x.count(8) - writes, 0);
+    }
+
+    private static void promise5LogByHalves() {
+        // block 1 is written behind the sync of the entries: with the power gone there, they do not count
+        LedgerFiles x = Kit.mounted(128, 64, 1);
+        Kit.tape(x, "/f");
+        x.power(6);
+        Kit.call("make() whose values and numbers are written and synced", Kit.POWER, () -> x.make(false));
+        x.restart(3);
+        Kit.call("mount() without block 1", 0, x::mount);
+        Kit.due("find", Kit.find(x, "/f"), -1);
+        Kit.due("check", x.check(), 0);
+    }
+
+    private static void promise5PowerFailsAgain() {
+        for (int steps = 0; steps < 7; steps++) {
+            LedgerFiles x = Kit.mounted(128, 8, 1);
+            Kit.file(x, "/f");
+            x.crash();
+            x.restart(7);
+            x.power(steps);
+            Kit.call("mount() with power for " + steps + " steps", Kit.POWER, x::mount);
+            x.restart(steps);
+            Kit.due("tree behind that", x.mount() >= 0 && Kit.find(x, "/f") == 2, true);
+        }
+    }
+
+    private static void promise5LostGo() {
+        LedgerFiles x = Kit.mounted(128, 8, 4);
+        int inode = Kit.file(x, "/f");
+        x.fill(inode, 0, 2000, 5);
+        x.hold(inode);
+        Kit.remove(x, "/f");
+        x.flush();
+        Kit.due("lost", x.count(15), 1);
+        x.crash();
+        x.restart(1);
+        x.mount();
+        Kit.due("lost behind mount()", x.count(15), 0);
+        Kit.due("inodes free", x.count(1), 63);
+        Kit.due("changes in the queue", x.count(3), 1);
+        Kit.due("blocks that rest", x.count(2), 17);
+        Kit.due("hold of what went", x.hold(inode), -11);
+    }
+
+    private static void promise6Unmount() {
+        LedgerFiles x = Kit.mounted(128, 8, 16);
+        int inode = Kit.file(x, "/f");
+        x.fill(inode, 0, 300, 5);
+        int h = Kit.open(x, "/f", 1);
+        Kit.file(x, "/g");
+        x.hold(3);
+        Kit.remove(x, "/g");
+        x.begin();
+        Kit.file(x, "/h");
+        long tree = x.tree(true);
+        x.undo();
+        long due = x.tree(true);
+        x.begin();
+        Kit.file(x, "/h");
+        Kit.due("the group's name is seen", x.tree(true), tree);
+        Kit.run("unmount()", "", x::unmount);
+        Kit.due("mounted", x.count(13), 0);
+        Kit.due("buffer", x.count(6), 0);
+        Kit.due("values that wait", x.count(7), 0);
+        Kit.due("entries on the disk", Kit.onDisk(x, 1, 0, 2), 0);
+        Kit.run("unmount() again", Kit.STATE, x::unmount);
+        Kit.call("read() behind it", Kit.STATE, () -> x.read(inode, 0));
+        Kit.call("mount()", 0, x::mount);
+        Kit.due("tree without the group's", x.tree(true), due);
+        Kit.due("lost", x.count(15), 0);
+        Kit.due("inode of what was lost", x.about(3, 0), -11);
+        Kit.due("handles", x.count(17), 0);
+        Kit.due("handle from before", x.look(h, 0), -13);
+        Kit.due("held", x.about(inode, 6), 0);
+        Kit.due("check", x.check(), 0);
+    }
+
+    private static void promise6Steps() {
+        LedgerFiles x = Kit.mounted(128, 8, 16);
+        int syncs = x.count(9);
+        int writes = x.count(8);
+        x.unmount();
+        Kit.due("syncs of unmount() with nothing to do", x.count(9) - syncs, 1);
+        Kit.due("writes", x.count(8) - writes, 0);
+        LedgerFiles y = Kit.mounted(128, 8, 16);
+        y.mark(1, 5);
+        syncs = y.count(9);
+        writes = y.count(8);
+        y.unmount();
+        Kit.due("syncs of FLUSH, APPLY, SETTLE", y.count(9) - syncs, 5);
+        Kit.due("writes of one block's change", y.count(8) - writes, 5);
+        LedgerFiles z = Kit.mounted(128, 8, 16);
+        z.mark(1, 5);
+        z.power(9);
+        Kit.run("unmount() whose last sync fails", Kit.POWER, z::unmount);
+        Kit.run("unmount() without power", Kit.STATE, z::unmount);
+    }
+
+    public static void main(String[] args) {
+        promise4Layout();
+        promise4Steps();
+        promise4PowerFails();
+        promise4OtherBlocksStay();
+        promise4State();
+        promise5Head();
+        promise5Log();
+        promise5LogByHalves();
+        promise5PowerFailsAgain();
+        promise5LostGo();
+        promise6Unmount();
+        promise6Steps();
+        Kit.done();
+    }
+}
