@@ -1,0 +1,340 @@
+/** Promises 32 to 37: groups, and what makes it last. */
+public final class GroupsTest {
+    private static void promise32Begin() {
+        LedgerFiles x = Kit.mounted(200, 8, 2);
+        Kit.due("begin", x.begin(), true);
+        Kit.due("again", x.begin(), false);
+        Kit.due("open", x.count(16), 1);
+        Kit.file(x, "/a");
+        Kit.file(x, "/b");
+        Kit.file(x, "/c");
+        Kit.due("no change is committed", x.count(3), 0);
+        Kit.due("but all is seen", Kit.find(x, "/c"), 4);
+        x.end();
+        Kit.due("open", x.count(16), 0);
+        Kit.due("one more", x.begin(), true);
+        x.crash();
+        Kit.call("begin() without power", Kit.STATE, x::begin);
+        x.restart(1);
+        x.mount();
+        Kit.due("none is open behind mount()", x.count(16), 0);
+    }
+
+    private static void promise33End() {
+        LedgerFiles x = Kit.mounted(200, 8, 16);
+        Kit.due("no group", x.end(), -9);
+        x.begin();
+        Kit.due("nothing in it", x.end(), 0);
+        Kit.due("no change", x.count(3), 0);
+        x.begin();
+        Kit.file(x, "/a");
+        Kit.file(x, "/b");
+        Kit.due("blocks 43, 44, 45 and the root's", x.end(), 4);
+        Kit.due("one change", x.count(3), 1);
+        x.begin();
+        Kit.file(x, "/c");
+        x.fill(4, 0, 300, 1);
+        Kit.remove(x, "/c");
+        Kit.due("blocks freed in it rest", x.count(2), 3);
+        Kit.due("nothing is other than before", x.end(), 0);
+        Kit.due("nothing rests", x.count(2), 0);
+        x.begin();
+        Kit.file(x, "/c");
+        x.fill(4, 0, 300, 1);
+        Kit.remove(x, "/c");
+        x.mark(1, 4);
+        Kit.due("the root's mark alone", x.end(), 1);
+        Kit.due("they rest for it", x.count(2), 3);
+        x.flush();
+        Kit.due("till it left the queue", x.count(2), 0);
+        x.unmount();
+        Kit.call("end() when not mounted", Kit.STATE, x::end);
+    }
+
+    private static void promise33TooMany() {
+        LedgerFiles x = Kit.mounted(300, 8, 16);
+        Kit.file(x, "/f");
+        long tree = x.tree(true);
+        int free = x.count(0);
+        x.begin();
+        for (int j = 0; j < 38; j++) {
+            x.fill(2, 9216 + 8192 * j, 1, 1);
+        }
+        Kit.due("43, 45, the second table, 38 more", x.end(), -12);
+        Kit.due("as behind undo()", x.tree(true), tree);
+        Kit.due("blocks", x.count(0), free);
+        Kit.due("rest", x.count(2), 0);
+        Kit.due("group", x.count(16), 0);
+        x.begin();
+        for (int j = 0; j < 37; j++) {
+            x.fill(2, 9216 + 8192 * j, 1, 1);
+        }
+        Kit.due("40 of them", x.end(), 40);
+        Kit.due("check", x.check(), 0);
+    }
+
+    private static void promise33Flushes() {
+        LedgerFiles x = Kit.mounted(200, 8, 2);
+        x.mark(1, 1);
+        x.begin();
+        x.mark(1, 2);
+        x.mark(1, 3);
+        Kit.due("in the queue", x.count(3), 1);
+        Kit.due("end", x.end(), 1);
+        Kit.due("the queue was flushed", x.count(3), 0);
+        Kit.due("both were one batch", x.count(4), 1);
+        x.mark(1, 4);
+        x.begin();
+        x.mark(1, 5);
+        x.power(2);
+        Kit.call("end() whose flush fails", Kit.POWER, x::end);
+        x.restart(1);
+        x.mount();
+        Kit.due("the mark behind that", x.about(1, 2), 3);
+    }
+
+    private static void promise33FreeBlocksAreSeenAsBefore() {
+        LedgerFiles x = Kit.mounted(200, 8, 16);
+        Kit.directory(x, "/d");
+        Kit.file(x, "/d/f");
+        int block = x.where(2, 0);
+        x.begin();
+        Kit.remove(x, "/d/f");
+        Kit.due("in the group its slot is free", x.seen(block, 0), 0);
+        Kit.remove(x, "/d");
+        Kit.due("when it is free it is seen as when the group began", x.seen(block, 0), 3);
+        x.undo();
+        Kit.due("undone", Kit.find(x, "/d/f"), 3);
+    }
+
+    private static void promise34Undo() {
+        LedgerFiles x = Kit.mounted(200, 8, 16);
+        Kit.due("no group", x.undo(), -9);
+        int f = Kit.file(x, "/f");
+        Kit.write(x, f, 0, "old bytes");
+        long tree = x.tree(false);
+        x.begin();
+        Kit.write(x, f, 0, "new");
+        Kit.directory(x, "/d");
+        Kit.rename(x, "/f", "/d/g");
+        x.mark(1, 7);
+        int h = Kit.open(x, "/d/n", 5);
+        int made = x.look(h, 0);
+        x.hold(made);
+        x.hold(f);
+        int kept = Kit.open(x, "/d/g", 0);
+        x.seek(kept, 3);
+        Kit.due("undo", x.undo(), 0);
+        Kit.due("tree", x.tree(false), tree);
+        Kit.due("bytes stay", Kit.text(x, f), "new bytes");
+        Kit.due("the handle on what was made", x.look(h, 0), -13);
+        Kit.due("the other handle", x.look(kept, 1), 3);
+        Kit.due("what was made is not held", x.hold(made), -11);
+        Kit.due("held", x.about(f, 6), 2);
+        Kit.due("no change", x.count(3), 2);
+        Kit.due("check", x.check(), 0);
+        x.crash();
+        Kit.call("undo() without power", Kit.STATE, x::undo);
+    }
+
+    private static void promise34LostGo() {
+        LedgerFiles x = Kit.mounted(200, 8, 16);
+        int f = Kit.file(x, "/f");
+        x.fill(f, 0, 200, 1);
+        x.hold(f);
+        Kit.remove(x, "/f");
+        x.begin();
+        Kit.due("it goes in the group", x.release(f), 0);
+        Kit.due("free", x.about(f, 0), -11);
+        int changes = x.count(3);
+        x.undo();
+        Kit.due("it came back lost, and went", x.about(f, 0), -11);
+        Kit.due("as one change", x.count(3) - changes, 1);
+        Kit.due("its blocks rest", x.count(2), 2);
+        Kit.due("check", x.check(), 0);
+    }
+
+    private static void promise34HandleOnDirectory() {
+        LedgerFiles x = Kit.mounted(200, 8, 16);
+        int d = Kit.directory(x, "/d");
+        x.begin();
+        Kit.remove(x, "/d");
+        int h = Kit.open(x, "/f", 4);
+        Kit.due("the inode is used again", x.look(h, 0), d);
+        x.hold(d);
+        x.undo();
+        Kit.due("it is a directory then", x.about(d, 0), 2);
+        Kit.due("the handle is free", x.count(17), 0);
+        Kit.due("hold() holds it still", x.about(d, 6), 1);
+    }
+
+    private static void promise34FreedInGroup() {
+        LedgerFiles x = Kit.mounted(128, 8, 1);
+        int f = Kit.file(x, "/f");
+        for (int at = 0; x.count(0) > 0; at += 128) {
+            x.fill(f, at, 128, 1);
+        }
+        x.begin();
+        x.truncate(f, 1000);
+        Kit.due("blocks are free", x.count(0) > 20, true);
+        Kit.due("but not for this group", x.fill(f, 2000, 1, 1), -7);
+        x.undo();
+        Kit.due("the size is as before", x.about(f, 1) > 5000, true);
+        Kit.due("none are free", x.count(0), 0);
+        x.truncate(f, 1000);
+        Kit.due("without a group they are", x.fill(f, 2000, 1, 1), 1);
+    }
+
+    private static void promise35Flush() {
+        LedgerFiles x = Kit.mounted(200, 64, 16);
+        Kit.due("nothing", x.flush(), 0);
+        int steps = x.count(8) + x.count(9);
+        x.flush();
+        Kit.due("no step", x.count(8) + x.count(9), steps);
+        Kit.file(x, "/f");
+        x.mark(1, 2);
+        x.mark(2, 3);
+        int writes = x.count(8);
+        int syncs = x.count(9);
+        Kit.due("three changes", x.flush(), 3);
+        Kit.due("four values, block 2, block 1", x.count(8) - writes, 6);
+        Kit.due("syncs", x.count(9) - syncs, 2);
+        Kit.due("entries", x.count(4), 4);
+        Kit.due("blocks of the entries", Kit.onDisk(x, 2, 0, 8), 43L | 44L << 16 | 45L << 32 | 61L << 48);
+        Kit.due("behind them", Kit.onDisk(x, 2, 8, 8), 0);
+        Kit.due("value of entry 0", x.byteAt(3, 7), 63);
+        Kit.due("its place on the disk", x.byteAt(43, 7), 31);
+        Kit.due("head", Kit.onDisk(x, 1, 0, 6), 4 | 1 << 16);
+        Kit.due("sum", (int) Kit.onDisk(x, 1, 6, 4), sumOf(x, 4));
+        x.mark(1, 9);
+        x.begin();
+        x.mark(1, 10);
+        Kit.due("the group's stays", x.flush(), 1);
+        Kit.due("group", x.count(16), 1);
+        Kit.due("entries", x.count(4), 5);
+        x.crash();
+        Kit.call("flush() without power", Kit.STATE, x::flush);
+        x.restart(1);
+        x.mount();
+        Kit.due("mark", x.about(1, 2), 9);
+    }
+
+    private static int sumOf(LedgerFiles x, int entries) {
+        int h = 7;
+        for (int i = 0; i < 6; i++) {
+            h = h * 31 + x.byteAt(1, i);
+        }
+        for (int i = 0; i < 2 * entries; i++) {
+            h = h * 31 + x.byteAt(2, i);
+        }
+        for (int k = 0; k < entries; k++) {
+            for (int i = 0; i < 128; i++) {
+                h = h * 31 + x.byteAt(3 + k, i);
+            }
+        }
+        return h;
+    }
+
+    private static void promise35Batches() {
+        // two changes of 23 blocks with 3 in common are two batches; the log is applied between them
+        LedgerFiles x = Kit.mounted(300, 64, 16);
+        Kit.file(x, "/f");
+        x.apply();
+        for (int round = 0; round < 2; round++) {
+            x.begin();
+            for (int j = 0; j < 20; j++) {
+                x.fill(2, 9216 + 8192 * (20 * round + j), 1, 1);
+            }
+            Kit.due("blocks of the change", x.end(), 23);
+        }
+        int turn = x.count(5);
+        Kit.due("two changes", x.flush(), 2);
+        Kit.due("two batches, and the log applied", x.count(5) - turn, 3);
+        Kit.due("entries of the second", x.count(4), 23);
+        Kit.due("check", x.check(), 0);
+    }
+
+    private static void promise36Sync() {
+        LedgerFiles x = Kit.mounted(200, 64, 16);
+        int f = Kit.file(x, "/f");
+        int g = Kit.file(x, "/g");
+        x.fill(f, 0, 1500, 1);
+        x.fill(g, 0, 300, 1);
+        int syncs = x.count(9);
+        int writes = x.count(8);
+        Kit.due("sync", x.sync(f), 12);
+        Kit.due("writes", x.count(8) - writes, 12);
+        Kit.due("syncs", x.count(9) - syncs, 1);
+        Kit.due("the other's are in the buffer", x.count(6), 3);
+        Kit.due("again", x.sync(f), 0);
+        Kit.due("the disk syncs then, too", x.count(9) - syncs, 2);
+        Kit.due("bytes on the disk", x.byteAt(x.where(f, 0), 1), x.read(f, 1));
+        Kit.due("the change stays in the queue", x.count(3), 4);
+        x.power(2);
+        Kit.call("sync() that fails", Kit.POWER, () -> x.sync(g));
+        Kit.due("the first two wait", x.count(7), 2);
+        x.restart(9);
+        x.mount();
+        for (int inode : new int[] {0, -1, 65, 9, Integer.MIN_VALUE, Integer.MAX_VALUE}) {
+            Kit.due("sync of inode " + inode, x.sync(inode), -11);
+        }
+        Kit.due("a directory", x.sync(1), -4);
+        x.unmount();
+        Kit.call("sync() when not mounted", Kit.STATE, () -> x.sync(2));
+    }
+
+    private static void promise36Rising() {
+        LedgerFiles x = Kit.mounted(200, 64, 1);
+        int f = Kit.file(x, "/f");
+        Kit.write(x, f, 512, "second");
+        Kit.write(x, f, 0, "first");
+        x.apply();
+        Kit.write(x, f, 0, "FIRST");
+        Kit.write(x, f, 512, "SECOND");
+        Kit.due("blocks", x.where(f, 4) < x.where(f, 0), true);
+        x.power(1);
+        Kit.call("sync() with power for one step", Kit.POWER, () -> x.sync(f));
+        Kit.due("the lower block was written", x.waiting(62) * 10 + x.waiting(63), 10);
+    }
+
+    private static void promise37Apply() {
+        LedgerFiles x = Kit.mounted(200, 64, 16);
+        int syncs = x.count(9);
+        Kit.due("nothing", x.apply(), 0);
+        Kit.due("no step", x.count(9), syncs);
+        Kit.file(x, "/f");
+        Kit.due("flush, then apply", x.apply(), 4);
+        Kit.due("queue", x.count(3), 0);
+        Kit.due("entries", x.count(4), 0);
+        Kit.due("TURN", x.count(5), 2);
+        Kit.due("syncs", x.count(9) - syncs, 4);
+        Kit.due("in its place", x.byteAt(43, 7), 63);
+        Kit.due("block 2 stays", Kit.onDisk(x, 2, 0, 2), 43);
+        Kit.due("head", Kit.onDisk(x, 1, 0, 6), 2 << 16);
+        x.mark(1, 1);
+        x.flush();
+        x.mark(1, 2);
+        Kit.due("two entries of one block", x.apply(), 2);
+        Kit.due("the last counts", Kit.onDisk(x, 45, 8, 4), 2);
+        x.crash();
+        Kit.call("apply() without power", Kit.STATE, x::apply);
+    }
+
+    public static void main(String[] args) {
+        promise32Begin();
+        promise33End();
+        promise33TooMany();
+        promise33Flushes();
+        promise33FreeBlocksAreSeenAsBefore();
+        promise34Undo();
+        promise34LostGo();
+        promise34HandleOnDirectory();
+        promise34FreedInGroup();
+        promise35Flush();
+        promise35Batches();
+        promise36Sync();
+        promise36Rising();
+        promise37Apply();
+        Kit.done();
+    }
+}
