@@ -63,9 +63,7 @@ public final class FilesTest {
         }
         x.truncate(3, 0);
         int other = Kit.file(x, "/o");
-        for (int at = 0; x.count(0) > 4; at += 128) {
-            x.fill(other, at, 128, 1);
-        }
+        Kit.fillUp(x, other, 4);
         Kit.due("blocks at first", blocks, 66);
         Kit.due("a far block wants two tables, two of them three", Kit.write(x, 3, 9216 + 127, "ab"), 2);
         Kit.due("none is free", x.count(0), 0);
@@ -105,6 +103,34 @@ public final class FilesTest {
         Kit.due("one block went out of the full buffer", x.count(8) - writes, 1);
         Kit.due("it was put longest ago", x.byteAt(x.where(3, 1), 0), (int) 'x');
         Kit.due("the one that was put again is not", x.byteAt(x.where(3, 0), 0), 0);
+    }
+
+    private static void promise14Resting() {
+        LedgerFiles x = withFile(128, 8, 16);
+        x.fill(3, 0, 640, 1);
+        x.truncate(3, 256);
+        Kit.due("three blocks rest", x.count(2), 3);
+        int g = Kit.file(x, "/g");
+        Kit.write(x, g, 0, "a");
+        Kit.due("they are not taken", x.where(g, 0), 67);
+        x.flush();
+        Kit.due("nothing rests", x.count(2), 0);
+        Kit.write(x, g, 128, "b");
+        Kit.due("then they are", x.where(g, 1), 64);
+        Kit.due("its old bytes are not seen", Kit.notZero(x, 64), 1);
+    }
+
+    private static void promise14FlushesToTake() {
+        LedgerFiles x = withFile(128, 64, 16);
+        Kit.fillUp(x, 3, 0);
+        int size = x.about(3, 1);
+        x.flush();
+        x.truncate(3, size - 256);
+        Kit.due("all that are free rest", x.count(0) * 10 + x.count(2), 22);
+        Kit.due("to take one flushes", x.fill(3, size - 256, 200, 1), 200);
+        Kit.due("so one change is in the queue", x.count(3), 1);
+        Kit.due("none is free", x.count(0), 0);
+        Kit.due("check", x.check(), 0);
     }
 
     private static void promise14LogHasIt() {
@@ -465,6 +491,8 @@ public final class FilesTest {
         promise14NoBlocks();
         promise14TablesFirst();
         promise14Directly();
+        promise14Resting();
+        promise14FlushesToTake();
         promise14LogHasIt();
         promise15Fill();
         promise16Truncate();

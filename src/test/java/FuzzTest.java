@@ -8,6 +8,9 @@ public final class FuzzTest {
     private static final int[] PLACES = {0, 100, 127, 128, 1000, 1024, 1100, 5000, 9200, 9216, 9300, 17000, 30000,
         100000, 399000, 399990, 400000};
 
+    private static final int[] WILD = {Integer.MIN_VALUE, Integer.MIN_VALUE + 1, -128, -1, 400001, Integer.MAX_VALUE - 127,
+        Integer.MAX_VALUE};
+
     private final Random random;
     private final Twins twins;
     private final int inodes;
@@ -75,6 +78,9 @@ public final class FuzzTest {
     }
 
     private int inode() {
+        if (random.nextInt(100) == 0) {
+            return random.nextInt();
+        }
         int kind = random.nextInt(30);
         if (kind > 8 && twins.model().isMounted()) {
             List<Integer> there = twins.model().inodesOf(kind == 9 ? 2 : 1);
@@ -84,6 +90,9 @@ public final class FuzzTest {
     }
 
     private int at() {
+        if (random.nextInt(50) == 0) {
+            return WILD[random.nextInt(WILD.length)];
+        }
         if (random.nextInt(8) == 0) {
             return 9216 + 8192 * random.nextInt(48) + random.nextInt(3);
         }
@@ -149,7 +158,8 @@ public final class FuzzTest {
                 twins.call("mark", inode(), random.nextInt());
                 break;
             case 9: case 10:
-                twins.call("punch", inode(), at(), random.nextInt(3) == 0 ? random.nextInt(400000) : random.nextInt(2000));
+                twins.call("punch", inode(), at(), random.nextInt(3) == 0 ? at()
+                        : random.nextInt(3) == 0 ? random.nextInt(400000) : random.nextInt(2000));
                 break;
             case 11:
                 twins.call("hold", inode());

@@ -73,6 +73,30 @@ public final class GroupsTest {
         Kit.due("check", x.check(), 0);
     }
 
+    private static void promise33TooManyWithLost() {
+        LedgerFiles x = Kit.mounted(300, 8, 16);
+        int f = Kit.file(x, "/f");
+        int g = Kit.file(x, "/g");
+        int h = Kit.file(x, "/h");
+        x.hold(g);
+        x.hold(h);
+        Kit.remove(x, "/g");
+        Kit.remove(x, "/h");
+        x.begin();
+        x.release(g);
+        for (int j = 0; j < 40; j++) {
+            x.fill(f, 9216 + 8192 * j, 1, 1);
+        }
+        int changes = x.count(3);
+        Kit.due("too many", x.end(), -12);
+        Kit.due("lost and not held: it goes", x.about(g, 0), -11);
+        Kit.due("lost and held: it stays", x.about(h, 0), 1);
+        Kit.due("one change", x.count(3) - changes, 1);
+        x.begin();
+        x.undo();
+        Kit.due("undo() lets it stay, too", x.about(h, 0), 1);
+    }
+
     private static void promise33Flushes() {
         LedgerFiles x = Kit.mounted(200, 8, 2);
         x.mark(1, 1);
@@ -171,9 +195,7 @@ public final class GroupsTest {
     private static void promise34FreedInGroup() {
         LedgerFiles x = Kit.mounted(128, 8, 1);
         int f = Kit.file(x, "/f");
-        for (int at = 0; x.count(0) > 0; at += 128) {
-            x.fill(f, at, 128, 1);
-        }
+        Kit.fillUp(x, f, 0);
         x.begin();
         x.truncate(f, 1000);
         Kit.due("blocks are free", x.count(0) > 20, true);
@@ -324,6 +346,7 @@ public final class GroupsTest {
         promise32Begin();
         promise33End();
         promise33TooMany();
+        promise33TooManyWithLost();
         promise33Flushes();
         promise33FreeBlocksAreSeenAsBefore();
         promise34Undo();

@@ -73,9 +73,7 @@ public final class HandlesTest {
         LedgerFiles x = Kit.mounted(128, 8, 1);
         Kit.directory(x, "/d");
         int f = Kit.file(x, "/f");
-        for (int at = 0; x.count(0) > 0; at += 128) {
-            x.fill(f, at, 128, 1);
-        }
+        Kit.fillUp(x, f, 0);
         Kit.due("no block for the name", Kit.open(x, "/d/g", 4), -7);
         Kit.due("handles", x.count(17), 0);
         for (int i = 4; i <= 8; i++) {
@@ -158,9 +156,7 @@ public final class HandlesTest {
     private static void promise28NoBlocks() {
         LedgerFiles x = Kit.mounted(128, 8, 1);
         int f = Kit.file(x, "/f");
-        for (int at = 0; x.count(0) > 0; at += 128) {
-            x.fill(f, at, 128, 1);
-        }
+        Kit.fillUp(x, f, 0);
         int h = Kit.open(x, "/f", 2);
         Kit.due("no block", Kit.put(x, h, "a"), -7);
         Kit.due("place", x.look(h, 1), 0);

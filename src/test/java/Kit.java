@@ -168,6 +168,14 @@ final class Kit {
         return n;
     }
 
+    /** A file grows, block by block, till so many blocks are free. */
+    static void fillUp(LedgerFiles x, int inode, int left) {
+        for (int at = 0; at < 100000 && x.count(0) > left; at += 128) {
+            x.fill(inode, at, 128, 1);
+        }
+        due("blocks that are free", x.count(0), left);
+    }
+
     static LedgerFiles dark(int blocks, int buffer, int group) {
         LedgerFiles x = mounted(blocks, buffer, group);
         x.crash();

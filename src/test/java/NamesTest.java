@@ -67,7 +67,16 @@ public final class NamesTest {
         Kit.due("no inode is free", Kit.file(x, "/more"), -8);
         Kit.due("free inodes", x.count(1), 0);
         Kit.remove(x, "/f40");
+        Kit.due("its bit", Kit.seen(x, 44, 0, 8), ~(1L << 39));
         Kit.due("the lowest free one", Kit.file(x, "/more"), 40);
+        Kit.due("all bits", Kit.seen(x, 44, 0, 8), -1L);
+        Kit.due("no others", Kit.seen(x, 44, 8, 8), 0);
+        x.hold(64);
+        Kit.remove(x, "/f64");
+        Kit.due("the last one is lost", x.count(15), 1);
+        x.release(64);
+        Kit.due("the last one is free", x.count(1), 1);
+        Kit.due("check", x.check(), 0);
     }
 
     /** A disk of 128 blocks whose 67 are used but for some. */
@@ -75,12 +84,7 @@ public final class NamesTest {
         LedgerFiles x = Kit.mounted(128, 8, 1);
         Kit.directory(x, "/d");
         int big = Kit.file(x, "/big");
-        for (int i = 0; i < 40 && x.count(0) > left + 20; i++) {
-            x.fill(big, i * 1920, 1920, 1);
-        }
-        for (int size = x.about(big, 1); x.count(0) > left; size += 128) {
-            x.fill(big, size, 128, 1);
-        }
+        Kit.fillUp(x, big, left);
         return x;
     }
 
@@ -430,9 +434,7 @@ public final class NamesTest {
         int f = Kit.file(x, "/f");
         x.fill(f, 0, 1100, 1);
         int big = Kit.file(x, "/big");
-        for (int at = 0; x.count(0) > 11; at += 128) {
-            x.fill(big, at, 128, 2);
-        }
+        Kit.fillUp(x, big, 11);
         Kit.due("nine blocks, a table, a block for the name", Kit.copy(x, "/f", "/d/c"), 5);
         Kit.due("no block is free", x.count(0), 0);
         LedgerFiles y = Kit.mounted(128, 8, 1);
@@ -440,9 +442,7 @@ public final class NamesTest {
         int g = Kit.file(y, "/f");
         y.fill(g, 0, 1100, 1);
         int large = Kit.file(y, "/big");
-        for (int at = 0; y.count(0) > 10; at += 128) {
-            y.fill(large, at, 128, 2);
-        }
+        Kit.fillUp(y, large, 10);
         Kit.due("one block too few", Kit.copy(y, "/f", "/d/c"), -7);
         Kit.due("nothing was taken", y.count(0) * 100 + y.count(1), 1060);
         Kit.due("enough without a block for the name", Kit.copy(y, "/f", "/c"), 5);

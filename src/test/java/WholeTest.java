@@ -185,6 +185,8 @@ public final class WholeTest {
         Kit.due("buffer", x.count(6), 0);
         Kit.due("values that wait", x.count(7), 0);
         Kit.due("entries on the disk", Kit.onDisk(x, 1, 0, 2), 0);
+        Kit.due("what was lost went ahead of that", Kit.onDisk(x, 45, 64, 8), 0);
+        Kit.due("its bit", Kit.onDisk(x, 44, 0, 8), 3);
         Kit.run("unmount() again", Kit.STATE, x::unmount);
         Kit.call("read() behind it", Kit.STATE, () -> x.read(inode, 0));
         Kit.call("mount()", 0, x::mount);
