@@ -598,7 +598,7 @@ public final class LedgerFiles {
             case 1:
                 return nodes.size(inode);
             case 2:
-                return nodes.mark(inode);
+                return nodes.markOf(inode);
             case 3:
                 return nodes.blocksAndTables(inode);
             case 4:
@@ -899,7 +899,7 @@ public final class LedgerFiles {
             int kind = nodes.kind(inode);
             h = folders.hashName(h, directory, slot) + kind;
             h = h * 31 + nodes.size(inode);
-            h = h * 31 + nodes.mark(inode);
+            h = h * 31 + nodes.markOf(inode);
             if (kind == DIRECTORY && depth < INODES) {
                 depth++;
                 walkDirectory[depth] = inode;
@@ -1349,11 +1349,10 @@ public final class LedgerFiles {
 
         void forget() {
             Arrays.fill(rowOf, NONE);
-            Arrays.fill(rests, false);
             used = 0;
             held = 0;
-            restCount = 0;
             restForQueue = 0;
+            wakeForNone();
         }
 
         boolean isFull() {
@@ -1565,7 +1564,9 @@ public final class LedgerFiles {
         int lowest() {
             byte[] bits = see(USED_BLOCKS);
             for (int b = FIRST_FREE; b < owned.length; b++) {
-                if ((bits[b / 8] >> b % 8 & 1) == 0 && !queue.rests[b]) {
+                if (bits[b / 8] == -1) {
+                    b |= 7;
+                } else if ((bits[b / 8] >> b % 8 & 1) == 0 && !queue.rests[b]) {
                     return b;
                 }
             }
@@ -1751,7 +1752,7 @@ public final class LedgerFiles {
             return Disk.four(view.see(home(inode)), start(inode) + AT_SIZE);
         }
 
-        int mark(int inode) {
+        int markOf(int inode) {
             return Disk.four(view.see(home(inode)), start(inode) + AT_MARK);
         }
 
@@ -2309,7 +2310,7 @@ public final class LedgerFiles {
         void fillCopy(int from, int to) {
             int size = nodes.size(from);
             nodes.setSize(to, size);
-            nodes.setMark(to, nodes.mark(from));
+            nodes.setMark(to, nodes.markOf(from));
             for (int i = 0; i < nodes.found; i++) {
                 nodes.have(to, nodes.places[i], false);
             }
@@ -2492,7 +2493,7 @@ public final class LedgerFiles {
         }
 
         private void lookAtFree(int inode) {
-            ask(nodes.links(inode) == 0 && nodes.size(inode) == 0 && nodes.mark(inode) == 0);
+            ask(nodes.links(inode) == 0 && nodes.size(inode) == 0 && nodes.markOf(inode) == 0);
             ask(nodes.firstTable(inode) == 0 && nodes.secondTable(inode) == 0);
             for (int place = 0; place < DIRECT; place++) {
                 ask(nodes.reach(inode, place, 0) == 0);

@@ -8,8 +8,8 @@ public final class FuzzTest {
     private static final int[] PLACES = {0, 100, 127, 128, 1000, 1024, 1100, 5000, 9200, 9216, 9300, 17000, 30000,
         100000, 399000, 399990, 400000};
 
-    private static final int[] WILD = {Integer.MIN_VALUE, Integer.MIN_VALUE + 1, -128, -1, 400001, Integer.MAX_VALUE - 127,
-        Integer.MAX_VALUE};
+    private static final int[] WILD = {Integer.MIN_VALUE, Integer.MIN_VALUE + 1, -128, -1, 400001,
+        Integer.MAX_VALUE - 127, Integer.MAX_VALUE};
 
     private final Random random;
     private final Twins twins;

@@ -9,6 +9,10 @@ public final class NamesTest {
         Kit.due("a file in it", Kit.file(x, "/d/f"), 3);
         Kit.due("a name of 13", Kit.file(x, "/Az0._-thirtee"), 4);
         Kit.due("a name of points", Kit.file(x, "/..."), 5);
+        Kit.due("the first and last letters", Kit.file(x, "/azAZ09._-"), 6);
+        for (char c : new char[] {'`', '{', '@', '[', '/', ':', ',', '^', ' ', '\u007f', '\u00e1'}) {
+            Kit.due("a name with " + c, Kit.file(x, "/a" + c), -6);
+        }
         int[] due = {1, 0, 0, 0, 0, 1, 0};
         for (int what = 0; what < 7; what++) {
             Kit.due("about(3, " + what + ")", x.about(3, what), due[what]);
@@ -227,6 +231,9 @@ public final class NamesTest {
         Kit.file(x, "/f");
         Kit.due("into a directory that wants a block", Kit.rename(x, "/f", "/d/f"), -7);
         Kit.due("in its directory", Kit.rename(x, "/f", "/g"), 0);
+        LedgerFiles y = almostFull(1);
+        Kit.file(y, "/f");
+        Kit.due("into a directory that wants the last block", Kit.rename(y, "/f", "/d/f"), 0);
         for (int i = 0; i < 5; i++) {
             Kit.file(x, "/m" + i);
         }

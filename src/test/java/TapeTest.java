@@ -1,8 +1,8 @@
 /** Promises 1 to 3: a new object, and the tape. */
 public final class TapeTest {
     private static void promise1NewObject() {
-        int[][] sizes = {{128, 128}, {127, 128}, {0, 128}, {-5, 128}, {Integer.MIN_VALUE, 128}, {129, 129}, {1024, 1024},
-            {1025, 1024}, {Integer.MAX_VALUE, 1024}};
+        int[][] sizes = {{128, 128}, {127, 128}, {0, 128}, {-5, 128}, {Integer.MIN_VALUE, 128}, {129, 129},
+            {1024, 1024}, {1025, 1024}, {Integer.MAX_VALUE, 1024}};
         for (int[] size : sizes) {
             LedgerFiles x = new LedgerFiles(size[0], 8, 4);
             Kit.due("format() of " + size[0] + " blocks", x.format(), size[1] - 61);

@@ -39,7 +39,7 @@ public final class Twins {
             Throwable t = e.getCause();
             String name = t.getClass().getName();
             boolean told = t instanceof IllegalStateException || t instanceof IllegalArgumentException
-                    || t instanceof UnsupportedOperationException || t.getClass() == java.util.NoSuchElementException.class;
+                    || t instanceof UnsupportedOperationException || t instanceof java.util.NoSuchElementException;
             if (!told) {
                 t.printStackTrace();
             }

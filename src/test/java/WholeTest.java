@@ -60,6 +60,9 @@ public final class WholeTest {
         y.power(2);
         Kit.call("format() once more", Kit.POWER, y::format);
         y.restart(0);
+        for (int i = 0; i < 128; i++) {
+            Kit.due("byte " + i + " of block 0 behind half a format", y.byteAt(0, i), 0);
+        }
         Kit.call("mount() behind half a format", Kit.ARGUMENT, y::mount);
         Kit.call("format() behind that", 67, y::format);
         Kit.call("mount() behind that", 0, y::mount);
@@ -119,6 +122,24 @@ public final class WholeTest {
         writes = x.count(8);
         Kit.call("mount() without a log", 0, x::mount);
         Kit.due("writes of that", x.count(8) - writes, 0);
+    }
+
+    private static void promise5FullLog() {
+        LedgerFiles x = Kit.mounted(300, 8, 16);
+        Kit.file(x, "/f");
+        x.begin();
+        for (int j = 0; j < 35; j++) {
+            x.fill(2, 9216 + 8192 * j, 1, 1);
+        }
+        x.end();
+        x.flush();
+        Kit.due("entries", x.count(4), 40);
+        long tree = x.tree(false);
+        x.crash();
+        x.restart(7);
+        Kit.call("mount() with 40 entries", 40, x::mount);
+        Kit.due("tree", x.tree(false), tree);
+        Kit.due("check", x.check(), 0);
     }
 
     private static void promise5LogByHalves() {
@@ -199,6 +220,24 @@ public final class WholeTest {
         Kit.due("check", x.check(), 0);
     }
 
+    private static void promise6TwoChanges() {
+        // undo() lets go what is lost and not held; then unmount() what was held: with G 1 that is two flushes
+        LedgerFiles x = Kit.mounted(128, 8, 1);
+        int f = Kit.file(x, "/f");
+        int g = Kit.file(x, "/g");
+        x.hold(f);
+        x.hold(g);
+        Kit.remove(x, "/f");
+        Kit.remove(x, "/g");
+        x.apply();
+        x.begin();
+        x.release(f);
+        int turn = x.count(5);
+        x.unmount();
+        x.mount();
+        Kit.due("TURN", x.count(5) - turn, 3);
+    }
+
     private static void promise6Steps() {
         LedgerFiles x = Kit.mounted(128, 8, 16);
         int syncs = x.count(9);
@@ -228,10 +267,12 @@ public final class WholeTest {
         promise4State();
         promise5Head();
         promise5Log();
+        promise5FullLog();
         promise5LogByHalves();
         promise5PowerFailsAgain();
         promise5LostGo();
         promise6Unmount();
+        promise6TwoChanges();
         promise6Steps();
         Kit.done();
     }
