@@ -485,6 +485,217 @@ public final class FilesTest {
         Kit.call("letter() when not mounted", Kit.STATE, () -> x.letter(1, 3, 0));
     }
 
+    private static void promise14Edges() {
+        LedgerFiles x = withFile(200, 8, 16);
+        for (int i = 0; i < 51; i++) {
+            x.feed(0x61616161, 0x62626262, 0x63636363, 0x64646464, 0x65656565);
+        }
+        x.back(16);
+        x.feed(0x61616161, 0x62626262, 0x63636363, 0x64646464, 0x66666666);
+        Kit.due("a whole tape that would end behind 400,000", x.write(3, 398977), -10);
+        Kit.due("the tape is used up", x.count(12), 0);
+        for (int i = 0; i < 51; i++) {
+            x.feed(0x61616161, 0x62626262, 0x63636363, 0x64646464, 0x65656565);
+        }
+        x.back(16);
+        x.feed(0x61616161, 0x62626262, 0x63636363, 0x64646464, 0x66666666);
+        Kit.due("a whole tape that ends at 400,000", x.write(3, 398976), 1024);
+        Kit.due("its last byte", x.read(3, 399999), (int) 'f');
+        Kit.due("size", x.about(3, 1), 400000);
+        Kit.due("eight blocks, a second table, a table", x.about(3, 3), 10);
+        Kit.due("a block's last byte alone", Kit.write(x, 3, 127, "x"), 1);
+        Kit.due("one block", x.about(3, 3), 11);
+        Kit.due("a block's last byte and the next one's first", Kit.write(x, 3, 255, "yz"), 2);
+        Kit.due("two blocks", x.about(3, 3), 13);
+    }
+
+    private static void promise14BytesOfAHole() {
+        // the block that is taken has old bytes: who reads sees 0s beside the new ones
+        LedgerFiles x = withFile(128, 8, 1);
+        x.fill(3, 0, 384, 77);
+        x.truncate(3, 0);
+        Kit.write(x, 3, 260, "a");
+        Kit.due("the lowest of the old blocks", x.where(3, 2), 62);
+        Kit.due("one byte is not 0", Kit.notZero(x, 62), 1);
+        Kit.due("the byte ahead", x.read(3, 259), 0);
+    }
+
+    private static void promise15Edges() {
+        LedgerFiles x = withFile(128, 8, 16);
+        Kit.due("the last 2,000 bytes", x.fill(3, 398000, 2000, 5), 2000);
+        Kit.due("one more", x.fill(3, 398001, 2000, 5), -10);
+        Kit.due("byte 1999", x.read(3, 399999), 5 + 1999 * 1999 + (1999 >> 5) & 255);
+        Kit.due("byte 32", x.read(3, 398032), 5 + 32 * 32 + 1 & 255);
+        Kit.due("byte 31", x.read(3, 398031), 5 + 31 * 31 & 255);
+        Kit.due("a seed below 0", x.fill(3, 0, 1, -1), 1);
+        Kit.due("its byte", x.read(3, 0), 255);
+        Kit.due("n 0 of a directory", x.fill(2, 0, 0, 1), -4);
+        Kit.due("n 0 of a free inode", x.fill(9, 0, 0, 1), -11);
+    }
+
+    private static void promise15NoBlocks() {
+        LedgerFiles x = withFile(128, 8, 1);
+        int g = Kit.file(x, "/g");
+        Kit.fillUp(x, g, 15);
+        Kit.due("2,000 bytes want sixteen and a table", x.fill(3, 0, 2000, 1), -7);
+        Kit.due("nothing has changed", x.count(0) * 10 + x.about(3, 1), 150);
+        Kit.due("1,792 want fourteen and a table", x.fill(3, 0, 1792, 1), 1792);
+        Kit.due("none is free", x.count(0), 0);
+        Kit.due("-10 ahead of -7", x.fill(3, 399999, 2, 1), -10);
+    }
+
+    private static void promise16Edges() {
+        LedgerFiles x = withFile(200, 8, 16);
+        x.fill(3, 0, 1280, 3);
+        x.flush();
+        int free = x.count(0);
+        Kit.due("by one byte of the last block", x.truncate(3, 1279), 0);
+        Kit.due("no block is free", x.count(0), free);
+        Kit.due("to one byte of it", x.truncate(3, 1153), 0);
+        Kit.due("no block is free still", x.count(0), free);
+        Kit.due("to its first byte", x.truncate(3, 1152), 0);
+        Kit.due("it is free", x.count(0), free + 1);
+        int table = (int) Kit.seen(x, 45, 64 + 28, 2);
+        Kit.due("its number in the table that stays", Kit.seen(x, table, 2, 2), 0);
+        Kit.due("the other's stays", Kit.seen(x, table, 0, 2), x.where(3, 8));
+        int kept = x.where(3, 8);
+        Kit.due("to the inode's blocks", x.truncate(3, 1024), 0);
+        Kit.due("block and table are free", x.count(0), free + 3);
+        Kit.due("a table that goes keeps its bytes", Kit.seen(x, table, 0, 2), kept);
+        Kit.due("to one byte", x.truncate(3, 1), 0);
+        Kit.due("a block stays", x.about(3, 3), 1);
+        Kit.due("the others' numbers are 0", Kit.seen(x, 45, 64 + 14, 8), 0);
+        Kit.due("to nothing", x.truncate(3, 0), 0);
+        Kit.due("none stays", x.about(3, 3), 0);
+        Kit.due("all numbers are 0", Kit.seen(x, 45, 64 + 12, 8), 0);
+    }
+
+    private static void promise16LastTable() {
+        LedgerFiles x = withFile(200, 8, 16);
+        Kit.write(x, 3, 9216 + 8192 * 46, "a");
+        Kit.write(x, 3, 399999, "b");
+        Kit.due("two blocks, two tables, the second one", x.about(3, 3), 5);
+        x.truncate(3, 9216 + 8192 * 47 + 1);
+        Kit.due("a table for one byte of a hole stays", x.about(3, 3), 4);
+        x.truncate(3, 9216 + 8192 * 47);
+        Kit.due("then it is free", x.about(3, 3), 3);
+        x.truncate(3, 9217);
+        Kit.due("the table before it, too", x.about(3, 3), 1);
+        Kit.due("the second table stays for one byte", Kit.seen(x, 45, 64 + 30, 2) != 0, true);
+        x.truncate(3, 9216);
+        Kit.due("then it is free", x.about(3, 3), 0);
+        Kit.due("check", x.check(), 0);
+    }
+
+    private static void promise18WholeBlocks() {
+        LedgerFiles x = withFile(128, 64, 16);
+        x.fill(3, 0, 640, 5);
+        x.sync(3);
+        Kit.due("a byte less than a block", x.punch(3, 128, 127), 0);
+        Kit.due("is written", x.count(6), 1);
+        x.sync(3);
+        Kit.due("from the second byte of one on", x.punch(3, 257, 127), 0);
+        Kit.due("is written", x.count(6), 1);
+        x.sync(3);
+        Kit.due("a block", x.punch(3, 128, 128), 1);
+        Kit.due("a byte more at both ends", x.punch(3, 255, 130), 1);
+        Kit.due("of the block behind it one byte is written, the one ahead is a hole", x.count(6), 1);
+        Kit.due("its number", x.where(3, 2), 0);
+        Kit.due("the first byte of the next", x.read(3, 384), 0);
+        Kit.due("its second byte", x.read(3, 385), 5 + 385 * 385 + (385 >> 5) & 255);
+    }
+
+    private static void promise18RisingAndBehind() {
+        // the numbers become 0 ahead of the bytes; of the bytes the lower place is written first
+        LedgerFiles x = withFile(128, 4, 16);
+        x.fill(3, 0, 512, 5);
+        x.sync(3);
+        Kit.file(x, "/g");
+        x.fill(4, 0, 384, 5);
+        Kit.due("punch", x.punch(3, 100, 300), 2);
+        Kit.due("the buffer is full", x.count(6), 4);
+        Kit.due("written out", x.waiting(66), 1);
+        x.fill(4, 0, 1, 5);
+        x.fill(4, 384, 1, 5);
+        Kit.due("the other's two go ahead of them", x.waiting(67) + x.waiting(68), 2);
+        x.fill(4, 128, 1, 5);
+        Kit.due("then the lower place's, which was put first", x.waiting(62) * 10 + x.waiting(65), 10);
+    }
+
+    private static void promise18LastBlockOfTheSize() {
+        LedgerFiles x = withFile(128, 64, 16);
+        x.fill(3, 0, 200, 5);
+        Kit.due("up to the size: not the whole block", x.punch(3, 128, 72), 0);
+        Kit.due("it stays", x.where(3, 1) != 0, true);
+        Kit.due("the whole block, beyond the size", x.punch(3, 128, 128), 1);
+        Kit.due("it is a hole", x.where(3, 1), 0);
+        Kit.due("the size stays", x.about(3, 1), 200);
+    }
+
+    private static void promise18BytesBehindTheSizeStay() {
+        LedgerFiles x = withFile(128, 8, 16);
+        Kit.write(x, 3, 0, "ab");
+        x.begin();
+        Kit.write(x, 3, 2, "cdef");
+        x.undo();
+        Kit.due("a range over the size", x.punch(3, 1, 3), 0);
+        x.truncate(3, 6);
+        Kit.due("only bytes below the size became 0", Kit.text(x, 3), "a\0cdef");
+    }
+
+    private static void promise19Edges() {
+        LedgerFiles x = withFile(128, 8, 16);
+        for (int i = 0; i < 100; i++) {
+            x.hold(3);
+        }
+        Kit.due("100 times", x.hold(3), -9);
+        Kit.due("once less", x.release(3), 99);
+        Kit.due("once more", x.hold(3), 100);
+        for (int i = 99; i >= 0; i--) {
+            Kit.due("release", x.release(3), i);
+        }
+        Kit.due("not held", x.release(3), -9);
+        Kit.due("inode 64 is free", x.hold(64), -11);
+    }
+
+    private static void promise23Edges() {
+        LedgerFiles x = withFile(128, 8, 16);
+        x.fill(3, 0, 1025, 1);
+        Kit.due("the last block of the inode", x.where(3, 7), 69);
+        Kit.due("the first of the first table", x.where(3, 8), 71);
+        Kit.due("behind the size", x.where(3, 9), 0);
+        Kit.write(x, 3, 9215, "ab");
+        Kit.due("the last of the first table", x.where(3, 71), 72);
+        Kit.due("the first of the second's first", x.where(3, 72), 75);
+        Kit.write(x, 3, 9216 + 8191, "ab");
+        Kit.due("the last of that", x.where(3, 135), 76);
+        Kit.due("the first of the next", x.where(3, 136), 78);
+        x.truncate(3, 9216);
+        Kit.due("behind the size then", x.where(3, 72), 0);
+        Kit.call("the lowest int", Kit.ARGUMENT, () -> x.where(3, Integer.MIN_VALUE));
+        Kit.call("the highest int", Kit.ARGUMENT, () -> x.where(3, Integer.MAX_VALUE));
+    }
+
+    private static void promise24Gaps() {
+        LedgerFiles x = Kit.mounted(128, 8, 16);
+        for (int i = 0; i < 10; i++) {
+            Kit.file(x, "/" + i);
+        }
+        for (int i = 1; i < 8; i++) {
+            Kit.remove(x, "/" + i);
+        }
+        Kit.due("names", x.about(1, 4), 3);
+        Kit.due("name 1 is in the next block", x.entry(1, 1), 10);
+        Kit.due("name 2", x.entry(1, 2) * 1000 + x.letter(1, 2, 0), 11 * 1000 + '9');
+        Kit.call("name 3", Kit.NO_ELEMENT, () -> x.entry(1, 3));
+        Kit.call("the highest int", Kit.NO_ELEMENT, () -> x.entry(1, Integer.MAX_VALUE));
+        Kit.call("letter of name 3", Kit.NO_ELEMENT, () -> x.letter(1, 3, 0));
+        Kit.remove(x, "/0");
+        Kit.remove(x, "/8");
+        Kit.remove(x, "/9");
+        Kit.call("name 0 of none", Kit.NO_ELEMENT, () -> x.entry(1, 0));
+    }
+
     public static void main(String[] args) {
         promise14Write();
         promise14Wrong();
@@ -509,6 +720,19 @@ public final class FilesTest {
         promise23Where();
         promise24Entry();
         promise25Letter();
+        promise14Edges();
+        promise14BytesOfAHole();
+        promise15Edges();
+        promise15NoBlocks();
+        promise16Edges();
+        promise16LastTable();
+        promise18WholeBlocks();
+        promise18RisingAndBehind();
+        promise18LastBlockOfTheSize();
+        promise18BytesBehindTheSizeStay();
+        promise19Edges();
+        promise23Edges();
+        promise24Gaps();
         Kit.done();
     }
 }

@@ -342,6 +342,168 @@ public final class GroupsTest {
         Kit.call("apply() without power", Kit.STATE, x::apply);
     }
 
+    private static void promise32WithTheQueue() {
+        LedgerFiles x = Kit.mounted(200, 8, 2);
+        x.mark(1, 1);
+        Kit.due("begin", x.begin(), true);
+        for (int i = 2; i < 9; i++) {
+            x.mark(1, i);
+        }
+        Kit.due("the queue is as it was", x.count(3) * 10 + x.count(4), 10);
+        Kit.due("steps", x.count(8) + x.count(9), 24);
+        Kit.due("begin again", x.begin(), false);
+        Kit.due("the group is the same", x.about(1, 2), 8);
+        x.undo();
+        Kit.due("undone as one", x.about(1, 2), 1);
+    }
+
+    private static void promise33AsItWas() {
+        LedgerFiles x = Kit.mounted(200, 8, 16);
+        int f = Kit.file(x, "/f");
+        x.begin();
+        x.mark(f, 5);
+        x.mark(f, 0);
+        Kit.due("a mark that is as it was", x.end(), 0);
+        x.begin();
+        Kit.rename(x, "/f", "/g");
+        Kit.rename(x, "/g", "/f");
+        Kit.due("a name that is as it was", x.end(), 0);
+        x.begin();
+        Kit.write(x, f, 0, "abc");
+        Kit.due("43 and 45", x.end(), 2);
+        x.begin();
+        Kit.write(x, f, 0, "xyz");
+        Kit.due("bytes alone", x.end(), 0);
+        Kit.due("text", Kit.text(x, f), "xyz");
+        Kit.due("changes", x.count(3), 2);
+        Kit.due("end() again", x.end(), -9);
+    }
+
+    private static void promise33Of40() {
+        LedgerFiles x = Kit.mounted(300, 8, 1);
+        int f = Kit.file(x, "/f");
+        int g = Kit.file(x, "/g");
+        for (int extra = 0; extra < 2; extra++) {
+            x.begin();
+            for (int j = 0; j < 37 + extra; j++) {
+                x.fill(f, 9216 + 8192 * j, 1, 1);
+            }
+            int h = Kit.open(x, "/h", 5);
+            x.hold(x.look(h, 0));
+            int kept = Kit.open(x, "/g", 0);
+            Kit.remove(x, "/h");
+            x.close(h);
+            x.release(4);
+            Kit.due("end() of 40 blocks and " + extra, x.end(), extra == 0 ? 40 : -12);
+            Kit.due("a handle on what is there stays", x.look(kept, 0), g);
+            x.close(kept);
+            Kit.due("size", x.about(f, 1) > 300000, extra == 0);
+            Kit.due("rest", x.count(2), 0);
+            x.truncate(f, 0);
+        }
+    }
+
+    private static void promise33TooManyFreesHandles() {
+        LedgerFiles x = Kit.mounted(300, 8, 16);
+        int f = Kit.file(x, "/f");
+        x.begin();
+        int h = Kit.open(x, "/new", 5);
+        int made = x.look(h, 0);
+        x.hold(made);
+        for (int j = 0; j < 40; j++) {
+            x.fill(f, 9216 + 8192 * j, 1, 1);
+        }
+        Kit.due("end", x.end(), -12);
+        Kit.due("the handle on what is free is free", x.look(h, 0), -13);
+        Kit.due("it is not held", x.hold(made), -11);
+        Kit.due("undo() behind it", x.undo(), -9);
+        Kit.due("the number is given anew, and is not held", x.about(Kit.file(x, "/z"), 6), 0);
+    }
+
+    private static void promise34Empty() {
+        LedgerFiles x = Kit.mounted(200, 8, 16);
+        x.mark(1, 3);
+        x.begin();
+        Kit.due("undo() of nothing", x.undo(), 0);
+        Kit.due("the queue stays", x.count(3), 1);
+        Kit.due("undo() again", x.undo(), -9);
+        Kit.due("begin()", x.begin(), true);
+    }
+
+    private static void promise34FlushIn() {
+        LedgerFiles x = Kit.mounted(200, 8, 16);
+        int f = Kit.file(x, "/f");
+        x.mark(f, 1);
+        x.begin();
+        x.mark(f, 2);
+        Kit.due("flush", x.flush(), 2);
+        x.mark(1, 7);
+        Kit.due("apply", x.apply(), 4);
+        Kit.due("the group's is seen", x.about(f, 2) * 10 + x.about(1, 2), 27);
+        x.undo();
+        Kit.due("as when it began", x.about(f, 2) * 10 + x.about(1, 2), 10);
+    }
+
+    private static void promise34PowerFails() {
+        LedgerFiles x = Kit.mounted(200, 8, 1);
+        int f = Kit.file(x, "/f");
+        x.hold(f);
+        Kit.remove(x, "/f");
+        x.begin();
+        x.release(f);
+        x.power(0);
+        Kit.call("undo() whose change fails", Kit.POWER, x::undo);
+        x.restart(1);
+        x.mount();
+        Kit.due("lost", x.count(15) * 100 + x.count(1), 63);
+        LedgerFiles y = Kit.mounted(200, 8, 1);
+        y.begin();
+        y.mark(1, 1);
+        y.power(0);
+        Kit.call("undo() without a change makes no step", 0, y::undo);
+    }
+
+    private static void promise35InAGroup() {
+        LedgerFiles x = Kit.mounted(200, 8, 16);
+        x.begin();
+        x.mark(1, 1);
+        Kit.due("nothing is in the queue", x.flush(), 0);
+        Kit.due("no step", x.count(8) + x.count(9), 24);
+        x.end();
+        Kit.due("then it is", x.flush(), 1);
+    }
+
+    private static void promise36Edges() {
+        LedgerFiles x = Kit.mounted(200, 64, 16);
+        int f = Kit.file(x, "/f");
+        Kit.due("an empty file", x.sync(f), 0);
+        Kit.due("the disk syncs", x.count(9), 4);
+        x.fill(f, 1024, 1, 1);
+        x.fill(f, 9216, 1, 1);
+        Kit.due("blocks, not tables", x.sync(f), 2);
+        Kit.due("the tables are in the queue", x.count(3), 3);
+        x.begin();
+        x.fill(f, 0, 1, 1);
+        Kit.due("what the group made", x.sync(f), 1);
+        x.truncate(f, 0);
+        Kit.due("none is left", x.sync(f), 0);
+        x.power(0);
+        Kit.call("sync() without blocks makes a step", Kit.POWER, () -> x.sync(f));
+    }
+
+    private static void promise37InAGroup() {
+        LedgerFiles x = Kit.mounted(200, 8, 16);
+        x.mark(1, 1);
+        x.begin();
+        x.mark(1, 2);
+        Kit.due("what is in the queue", x.apply(), 1);
+        Kit.due("in its place", x.byteAt(45, 8), 1);
+        Kit.due("the group's stays", x.count(16) * 10 + x.about(1, 2), 12);
+        Kit.due("nothing more", x.apply(), 0);
+        x.end();
+        Kit.due("then that", x.apply() * 10 + x.byteAt(45, 8), 12);
+    }
+
     public static void main(String[] args) {
         promise32Begin();
         promise33End();
@@ -358,6 +520,16 @@ public final class GroupsTest {
         promise36Sync();
         promise36Rising();
         promise37Apply();
+        promise32WithTheQueue();
+        promise33AsItWas();
+        promise33Of40();
+        promise33TooManyFreesHandles();
+        promise34Empty();
+        promise34FlushIn();
+        promise34PowerFails();
+        promise35InAGroup();
+        promise36Edges();
+        promise37InAGroup();
         Kit.done();
     }
 }

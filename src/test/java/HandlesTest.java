@@ -219,6 +219,114 @@ public final class HandlesTest {
         Kit.call("look() without power", Kit.STATE, () -> x.look(h, 3));
     }
 
+    private static void promise26Order() {
+        LedgerFiles x = Kit.mounted(128, 8, 16);
+        Kit.directory(x, "/d");
+        for (int i = 3; i <= 64; i++) {
+            Kit.file(x, "/f" + i);
+        }
+        Kit.due("no inode", Kit.open(x, "/new", 4), -8);
+        for (int h = 0; h < 32; h++) {
+            Kit.open(x, "/f3", h % 3);
+        }
+        Kit.due("no handle, ahead of no inode", Kit.open(x, "/new", 4), -9);
+        Kit.due("nothing there, ahead of no handle", Kit.open(x, "/new", 0), -1);
+        Kit.due("handles", x.count(17), 32);
+        x.close(31);
+        Kit.due("the last handle", Kit.open(x, "/f3", 0), 31);
+        x.close(0);
+        x.close(31);
+        Kit.due("the lowest of two", Kit.open(x, "/f3", 0), 0);
+    }
+
+    private static void promise26Emptied() {
+        LedgerFiles x = Kit.mounted(128, 8, 16);
+        int f = Kit.file(x, "/f");
+        x.fill(f, 0, 1500, 1);
+        int free = x.count(0);
+        int changes = x.count(3);
+        Kit.due("with 8", Kit.open(x, "/f", 10), 0);
+        Kit.due("blocks and its table are free", x.count(0) - free, 13);
+        Kit.due("one change", x.count(3) - changes, 1);
+        Kit.due("once more, empty", Kit.open(x, "/f", 9), 1);
+        Kit.due("no change", x.count(3) - changes, 1);
+        Kit.due("no change of a way without 8", Kit.open(x, "/f", 4) * 10 + x.count(3) - changes, 21);
+        x.power(0);
+        Kit.due("opening makes no step", Kit.open(x, "/f", 2), 3);
+        Kit.due("handles", x.count(17), 4);
+    }
+
+    private static void promise26NoHandleChangesNothing() {
+        LedgerFiles x = Kit.mounted(128, 8, 16);
+        int f = Kit.file(x, "/f");
+        x.fill(f, 0, 300, 1);
+        for (int h = 0; h < 32; h++) {
+            Kit.open(x, "/f", 1);
+        }
+        Kit.due("no handle, to be emptied", Kit.open(x, "/f", 9), -9);
+        Kit.due("its size stays", x.about(f, 1), 300);
+    }
+
+    private static void promise28Edges() {
+        LedgerFiles x = Kit.mounted(200, 8, 16);
+        int f = Kit.file(x, "/f");
+        int w = Kit.open(x, "/f", 1);
+        int e = Kit.open(x, "/f", 2);
+        x.seek(w, 399999);
+        Kit.due("two bytes end behind 400,000", Kit.put(x, w, "ab"), -10);
+        Kit.due("its place stays", x.look(w, 1), 399999);
+        Kit.due("one byte does not", Kit.put(x, w, "a"), 1);
+        Kit.due("its place", x.look(w, 1), 400000);
+        Kit.due("without bytes at 400,000", x.put(w), 0);
+        Kit.due("at the end there is no room", Kit.put(x, e, "a"), -10);
+        x.truncate(f, 5);
+        Kit.due("a place behind the end", x.get(w), -1);
+        x.seek(w, 300);
+        Kit.due("put behind a hole", Kit.put(x, w, "z"), 1);
+        Kit.due("size", x.about(f, 1), 301);
+        Kit.due("closed", x.close(w) + Kit.put(x, w, "a"), -13);
+        for (int none : new int[] {-1, 32}) {
+            Kit.due("put(" + none + ")", Kit.put(x, none, "a"), -13);
+        }
+    }
+
+    private static void promise27Kept() {
+        LedgerFiles x = Kit.mounted(200, 8, 16);
+        int f = Kit.file(x, "/f");
+        Kit.open(x, "/f", 0);
+        int changes = x.count(3);
+        Kit.due("a file with a name stays", x.close(0), 0);
+        Kit.due("its kind", x.about(f, 0), 1);
+        Kit.due("no change", x.count(3), changes);
+        Kit.open(x, "/f", 0);
+        x.hold(f);
+        Kit.remove(x, "/f");
+        x.release(f);
+        changes = x.count(3);
+        Kit.due("the last that holds it", x.close(0), 0);
+        Kit.due("it goes, one change", x.about(f, 0) * 10 + x.count(3) - changes, -109);
+        LedgerFiles y = Kit.mounted(200, 8, 1);
+        Kit.open(y, "/f", 4);
+        Kit.remove(y, "/f");
+        y.power(0);
+        Kit.call("close() whose change fails", Kit.POWER, () -> y.close(0));
+    }
+
+    private static void promise29Grows() {
+        LedgerFiles x = Kit.mounted(200, 8, 16);
+        int f = Kit.file(x, "/f");
+        int h = Kit.open(x, "/f", 0);
+        Kit.due("an empty file", x.get(h), -1);
+        Kit.write(x, f, 0, "a");
+        Kit.due("then it has a byte", x.get(h), (int) 'a');
+        x.truncate(f, 400000);
+        x.seek(h, 399999);
+        Kit.due("the last byte there can be, a hole's", x.get(h), 0);
+        Kit.due("place", x.look(h, 1), 400000);
+        Kit.due("behind it", x.get(h), -1);
+        Kit.due("place stays", x.look(h, 1), 400000);
+    }
+
     public static void main(String[] args) {
         promise26Open();
         promise26Wrong();
@@ -229,6 +337,12 @@ public final class HandlesTest {
         promise29Get();
         promise30Seek();
         promise31Look();
+        promise26Order();
+        promise26Emptied();
+        promise26NoHandleChangesNothing();
+        promise27Kept();
+        promise28Edges();
+        promise29Grows();
         Kit.done();
     }
 }

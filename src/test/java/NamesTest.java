@@ -495,6 +495,262 @@ public final class NamesTest {
         Kit.due("the tape is used up then, too", x.count(12), 0);
     }
 
+    private static void promise7InodesAheadOfBlocks() {
+        LedgerFiles x = Kit.mounted(128, 8, 1);
+        Kit.directory(x, "/d");
+        for (int i = 3; i <= 64; i++) {
+            Kit.file(x, "/f" + i);
+        }
+        Kit.fillUp(x, 3, 0);
+        Kit.due("there already, ahead of -8", Kit.file(x, "/f9"), -2);
+        Kit.due("below nothing, ahead of -8", Kit.file(x, "/no/x"), -1);
+        Kit.due("no inode, ahead of no block", Kit.file(x, "/d/x"), -8);
+        Kit.due("of open(), too", Kit.open(x, "/d/x", 4), -8);
+        Kit.due("of copy(), too", Kit.copy(x, "/f9", "/d/x"), -8);
+        Kit.remove(x, "/f64");
+        Kit.due("an inode, but no block", Kit.file(x, "/d/x"), -7);
+        Kit.due("of open(), too", Kit.open(x, "/d/x", 4), -7);
+        Kit.due("of copy(), too", Kit.copy(x, "/f9", "/d/x"), -7);
+        Kit.due("an inode, and a slot", Kit.file(x, "/x"), 64);
+    }
+
+    /** A directory of 64 names in its eight blocks, and a disk with so many blocks free. */
+    private static LedgerFiles eightBlocks(int left) {
+        LedgerFiles x = Kit.mounted(128, 8, 16);
+        Kit.directory(x, "/d");
+        Kit.file(x, "/d/0");
+        for (int i = 1; i < 64; i++) {
+            Kit.link(x, "/d/0", "/d/" + i);
+        }
+        Kit.due("size of 64 names", x.about(2, 1), 1024);
+        int big = Kit.file(x, "/big");
+        Kit.fillUp(x, big, left);
+        return x;
+    }
+
+    private static void promise7NinthBlock() {
+        LedgerFiles x = eightBlocks(1);
+        Kit.due("a ninth block wants a table, too", Kit.file(x, "/d/new"), -7);
+        Kit.due("of link()", Kit.link(x, "/d/0", "/d/new"), -7);
+        Kit.due("of rename()", Kit.rename(x, "/big", "/d/new"), -7);
+        Kit.due("of copy()", Kit.copy(x, "/big", "/d/new"), -7);
+        Kit.due("of open()", Kit.open(x, "/d/new", 4), -7);
+        Kit.due("a slot of its own is free ahead of the name", Kit.rename(x, "/d/5", "/d/new"), 0);
+        Kit.due("names, size", x.about(2, 4) * 10000 + x.about(2, 1), 641024);
+        LedgerFiles y = eightBlocks(2);
+        Kit.due("both are there", Kit.file(y, "/d/new"), 5);
+        Kit.due("size", y.about(2, 1), 1152);
+        Kit.due("a table more", y.about(2, 3), 10);
+        Kit.due("the table was taken first", Kit.seen(y, 45, 32 + 28, 2) < y.where(2, 8), true);
+        Kit.due("the name has the first slot of the block", y.letter(2, 64, 0), (int) 'n');
+        Kit.due("none is free", y.count(0), 0);
+        Kit.due("the next name wants no block", Kit.file(y, "/d/next"), 6);
+        Kit.due("check", y.check(), 0);
+    }
+
+    private static void promise8LastOfTwo() {
+        LedgerFiles x = Kit.mounted(128, 8, 16);
+        int f = Kit.file(x, "/f");
+        Kit.link(x, "/f", "/g");
+        x.fill(f, 0, 200, 1);
+        int free = x.count(0);
+        Kit.due("a name of two", Kit.remove(x, "/f"), 0);
+        Kit.due("its blocks stay", x.count(0), free);
+        int h = Kit.open(x, "/g", 0);
+        Kit.due("the last name of an open file", Kit.remove(x, "/g"), 0);
+        Kit.due("it is lost", x.count(15), 1);
+        Kit.due("its blocks stay", x.count(0), free);
+        x.close(h);
+        Kit.due("then they are free", x.count(0), free + 2);
+    }
+
+    private static void promise9FullDirectory() {
+        LedgerFiles x = Kit.mounted(128, 8, 16);
+        Kit.directory(x, "/d");
+        for (int i = 0; i < 8; i++) {
+            Kit.file(x, "/d/" + i);
+        }
+        Kit.file(x, "/f");
+        Kit.due("in a full directory of its own", Kit.rename(x, "/d/3", "/d/x"), 0);
+        Kit.due("size", x.about(2, 1), 128);
+        Kit.due("the slot was its own", x.letter(2, 3, 0), (int) 'x');
+        Kit.due("into a full directory", Kit.rename(x, "/f", "/d/f"), 0);
+        Kit.due("one block more", x.about(2, 1), 256);
+        Kit.due("its first slot", x.letter(2, 8, 0), (int) 'f');
+        Kit.due("LINKS", x.about(11, 5), 1);
+    }
+
+    private static void promise9SameInode() {
+        LedgerFiles x = Kit.mounted(128, 8, 16);
+        Kit.file(x, "/f");
+        Kit.directory(x, "/d");
+        Kit.link(x, "/f", "/d/g");
+        int changes = x.count(3);
+        Kit.due("one name in place of the other", Kit.rename(x, "/f", "/d/g"), 0);
+        Kit.due("both stay", Kit.find(x, "/f") * 10 + Kit.find(x, "/d/g"), 22);
+        Kit.due("a directory's own name", Kit.rename(x, "/d", "/d"), 0);
+        Kit.due("no change", x.count(3), changes);
+        Kit.due("names in the root", x.about(1, 4), 2);
+    }
+
+    private static void promise9HeldGoesLost() {
+        LedgerFiles x = Kit.mounted(128, 8, 16);
+        int f = Kit.file(x, "/f");
+        int g = Kit.file(x, "/g");
+        Kit.write(x, g, 0, "lost");
+        int h = Kit.open(x, "/g", 0);
+        Kit.due("a file in place of an open one", Kit.rename(x, "/f", "/g"), 0);
+        Kit.due("it is lost", x.count(15), 1);
+        Kit.due("and can be read", x.get(h), (int) 'l');
+        Kit.due("find", Kit.find(x, "/g"), f);
+        Kit.link(x, "/g", "/two");
+        Kit.file(x, "/h");
+        Kit.due("in place of one of two names", Kit.rename(x, "/h", "/two"), 0);
+        Kit.due("LINKS 1 less", x.about(f, 5), 1);
+        Kit.due("check", x.check(), 0);
+    }
+
+    private static void promise9FreedInGroup() {
+        LedgerFiles x = almostFull(1);
+        Kit.file(x, "/f");
+        x.begin();
+        x.fill(4, 0, 1, 1);
+        x.truncate(4, 0);
+        Kit.due("one block is free, of the group", x.count(0) * 10 + x.count(2), 11);
+        Kit.due("rename()", Kit.rename(x, "/f", "/d/f"), -7);
+        Kit.due("make()", Kit.file(x, "/d/f"), -7);
+        Kit.due("link()", Kit.link(x, "/f", "/d/f"), -7);
+        Kit.due("copy()", Kit.copy(x, "/f", "/d/f"), -7);
+        Kit.due("open()", Kit.open(x, "/d/f", 4), -7);
+        Kit.due("write()", Kit.write(x, 4, 0, "a"), -7);
+        x.end();
+        Kit.due("behind it", Kit.rename(x, "/f", "/d/f"), 0);
+    }
+
+    private static void promise7RestingBlockCounts() {
+        LedgerFiles x = Kit.mounted(128, 8, 16);
+        Kit.directory(x, "/d");
+        int big = Kit.file(x, "/big");
+        Kit.fillUp(x, big, 0);
+        x.flush();
+        x.punch(big, 0, 128);
+        Kit.due("one is free, and rests", x.count(0) * 10 + x.count(2), 11);
+        Kit.due("make() takes it behind a flush", Kit.file(x, "/d/f"), 4);
+        Kit.due("one change is in the queue", x.count(3), 1);
+        Kit.due("none rests", x.count(2), 0);
+        Kit.due("the block", x.where(2, 0), 62);
+    }
+
+    private static void promise11Held() {
+        LedgerFiles x = Kit.mounted(128, 8, 16);
+        int d = Kit.directory(x, "/d");
+        int e = Kit.directory(x, "/d/e");
+        int f = Kit.file(x, "/d/e/f");
+        Kit.link(x, "/d/e/f", "/d/g");
+        Kit.write(x, f, 0, "abc");
+        x.hold(e);
+        int h = Kit.open(x, "/d/g", 0);
+        Kit.due("clear()", Kit.clear(x, "/d"), 4);
+        Kit.due("a held directory is lost, and empty", x.about(e, 5) * 10 + x.about(e, 4), 0);
+        Kit.due("its size stays", x.about(e, 1), 128);
+        Kit.due("an open file is lost", x.about(f, 5) * 10 + x.count(15), 2);
+        Kit.due("its bytes", x.get(h), (int) 'a');
+        Kit.due("the top went", x.about(d, 0), -11);
+        Kit.due("check", x.check(), 0);
+        Kit.file(x, "/f");
+        Kit.link(x, "/f", "/g");
+        Kit.due("a file with two names", Kit.clear(x, "/g"), 1);
+        Kit.due("keeps the other", x.about(Kit.find(x, "/f"), 5), 1);
+        Kit.directory(x, "/empty");
+        Kit.due("an empty directory", Kit.clear(x, "/empty"), 1);
+    }
+
+    /** Held directories with a file each, below one: when that is cleared, they stay, without their names. */
+    private static LedgerFiles heldDirectories(int n) {
+        LedgerFiles x = Kit.mounted(300, 8, 16);
+        Kit.directory(x, "/dddddddd");
+        for (int i = 0; i < n; i++) {
+            String path = "/dddddddd/eeee" + (char) ('a' + i / 10) + i % 10;
+            x.hold(Kit.directory(x, path));
+            Kit.file(x, path + "/fff");
+        }
+        x.flush();
+        return x;
+    }
+
+    private static void promise11TooManyHeld() {
+        // of 24 directories: their blocks, 43, 44, 61, and inodes 2 to 50 in 13 blocks: 40; of 25 one more
+        LedgerFiles x = heldDirectories(25);
+        long tree = x.tree(true);
+        String before = x.count(0) + " " + x.count(1) + " " + x.count(2) + " " + x.count(3) + " " + x.count(15);
+        Kit.due("a change of 41 blocks", Kit.clear(x, "/dddddddd"), -12);
+        Kit.due("nothing has changed", x.tree(true), tree);
+        Kit.due("counts", x.count(0) + " " + x.count(1) + " " + x.count(2) + " " + x.count(3) + " " + x.count(15),
+                before);
+        x.begin();
+        Kit.due("not asked in a group", Kit.clear(x, "/dddddddd"), 51);
+        Kit.due("lost", x.count(15), 25);
+        Kit.due("but at its end", x.end(), -12);
+        Kit.due("nothing has changed then, too", x.tree(true), tree);
+        LedgerFiles y = heldDirectories(24);
+        Kit.due("a change of 40 blocks", Kit.clear(y, "/dddddddd"), 49);
+        y.flush();
+        Kit.due("entries", y.count(4), 40);
+    }
+
+    private static void promise12Edges() {
+        LedgerFiles x = Kit.mounted(128, 8, 16);
+        int f = Kit.file(x, "/f");
+        x.mark(f, 3);
+        int free = x.count(0);
+        int c = Kit.copy(x, "/f", "/empty");
+        Kit.due("an empty file", x.about(c, 1) * 10 + x.about(c, 2), 3);
+        x.truncate(f, 400000);
+        c = Kit.copy(x, "/f", "/holes");
+        Kit.due("holes alone", x.about(c, 1) * 10 + x.about(c, 3), 4000000);
+        Kit.due("no block was taken", x.count(0), free);
+        Kit.write(x, f, 399999, "z");
+        c = Kit.copy(x, "/f", "/far");
+        Kit.due("the last block there can be", x.about(c, 3), 3);
+        Kit.due("its last byte", x.read(c, 399999), (int) 'z');
+        Kit.due("a byte ahead of it", x.read(c, 399998), 0);
+        Kit.due("one change", x.count(3), 7);
+        Kit.due("check", x.check(), 0);
+    }
+
+    private static void promise12TablesAheadOfInodes() {
+        LedgerFiles x = Kit.mounted(300, 8, 16);
+        int f = Kit.file(x, "/f");
+        for (int j = 0; j < 32; j++) {
+            x.fill(f, 9216 + 8192 * j, 1, 1);
+        }
+        for (int i = 3; i <= 64; i++) {
+            Kit.file(x, "/f" + i);
+        }
+        Kit.due("33 tables, and no inode", Kit.copy(x, "/f", "/c"), -12);
+        Kit.due("there already, ahead of both", Kit.copy(x, "/f", "/f3"), -2);
+        x.punch(f, 9216, 128);
+        Kit.due("32 tables, and no inode", Kit.copy(x, "/f", "/c"), -8);
+        Kit.remove(x, "/f3");
+        Kit.due("and an inode", Kit.copy(x, "/f", "/c"), 3);
+    }
+
+    private static void promise13Deep() {
+        LedgerFiles x = Kit.mounted(128, 8, 16);
+        StringBuilder path = new StringBuilder();
+        for (int i = 0; i < 16; i++) {
+            path.append("/thirteen-13-").append((char) ('a' + i));
+            Kit.due("make at depth " + (i + 1), Kit.directory(x, path.toString()), i + 2);
+        }
+        Kit.due("224 bytes", path.length(), 224);
+        Kit.due("find at depth 16", Kit.find(x, path.toString()), 17);
+        Kit.due("17 names", Kit.find(x, path + "/a"), -6);
+        Kit.due("more than 255 bytes", Kit.find(x, path + "/" + "a".repeat(40)), -6);
+        Kit.due("a name of 14", Kit.find(x, "/fourteen-14-xx"), -6);
+        Kit.due("rename from depth 16", Kit.rename(x, path.toString(), "/a"), 0);
+        Kit.due("find", Kit.find(x, "/a"), 17);
+    }
+
     public static void main(String[] args) {
         promise7Make();
         promise7Slots();
@@ -518,6 +774,19 @@ public final class NamesTest {
         promise12NoBlocks();
         promise12ZerosBehindSize();
         promise13Find();
+        promise7InodesAheadOfBlocks();
+        promise7NinthBlock();
+        promise7RestingBlockCounts();
+        promise8LastOfTwo();
+        promise9FullDirectory();
+        promise9SameInode();
+        promise9HeldGoesLost();
+        promise9FreedInGroup();
+        promise11Held();
+        promise11TooManyHeld();
+        promise12Edges();
+        promise12TablesAheadOfInodes();
+        promise13Deep();
         Kit.done();
     }
 }

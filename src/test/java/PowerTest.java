@@ -124,12 +124,95 @@ public final class PowerTest {
         Kit.call("mount()", 0, x::mount);
     }
 
+    private static void promise38Zero() {
+        LedgerFiles x = Kit.mounted(128, 8, 1);
+        x.power(0);
+        Kit.due("steps", x.count(10), 0);
+        Kit.due("the power is on", x.count(14) * 10 + x.count(13), 11);
+        Kit.due("calls without steps", x.about(1, 0), 2);
+        Kit.due("nothing to flush", x.flush() + x.apply(), 0);
+        Kit.call("the first step", Kit.POWER, () -> x.mark(1, 1));
+        Kit.due("the power is off", x.count(14) * 10 + x.count(13), 0);
+        x.restart(0);
+        Kit.due("no failure is told", x.count(10), -1);
+        Kit.due("format() has all its steps", x.format(), 67);
+    }
+
+    private static void promise38TakenBack() {
+        LedgerFiles x = Kit.mounted(128, 8, 1);
+        x.power(1);
+        x.power(-1);
+        Kit.due("not told", x.count(10), -1);
+        Kit.due("a mark and its steps", x.mark(1, 1), 0);
+        x.power(0);
+        x.power(4);
+        Kit.call("in place of what was told before", Kit.POWER, () -> x.mark(1, 2));
+        Kit.due("writes of four steps: a value, block 2, block 1", x.count(7), 1);
+        x.restart(0);
+        x.power(3);
+        x.crash();
+        x.restart(0);
+        Kit.due("behind restart() nothing is told", x.count(10), -1);
+    }
+
+    private static void promise39WhatWaits() {
+        LedgerFiles x = Kit.mounted(128, 4, 16);
+        Kit.file(x, "/f");
+        x.fill(2, 0, 640, 1);
+        int writes = x.count(8);
+        int syncs = x.count(9);
+        Kit.due("a value waits", x.count(7), 1);
+        x.crash();
+        Kit.due("it waits still", x.count(7) * 10 + x.waiting(62), 11);
+        Kit.due("no step was made", x.count(8) + x.count(9), writes + syncs);
+        Kit.due("count(11) stays", x.count(11) > 0, true);
+        Kit.due("of one block", x.restart(1), 1);
+        Kit.due("none waits then", x.count(7) * 10 + x.waiting(62), 0);
+        Kit.due("no step was made then", x.count(8) + x.count(9), writes + syncs);
+    }
+
+    private static void promise40BlocksByRisingNumbers() {
+        // blocks 62 and 63 wait with one value each: which are kept tells the order of the x
+        for (long seed = 0; seed < 40; seed++) {
+            LedgerFiles x = Kit.mounted(128, 8, 1);
+            int f = Kit.file(x, "/f");
+            x.fill(f, 0, 256, 0);
+            x.apply();
+            x.fill(f, 128, 1, 201);
+            x.fill(f, 0, 1, 200);
+            x.power(2);
+            Kit.call("sync() whose sync fails", Kit.POWER, () -> x.sync(f));
+            Kit.due("two blocks", x.restart(seed), 2);
+            Kit.due("the lower one, seed " + seed, x.byteAt(62, 0), chosen(seed, 1, 1) == 0 ? 0 : 200);
+            Kit.due("the higher one, seed " + seed, x.byteAt(63, 0), chosen(seed, 2, 1) == 0 ? 4 : 201);
+        }
+    }
+
+    private static void promise40Extremes() {
+        for (long seed : new long[] {Long.MIN_VALUE, -1, 0, 1, Long.MAX_VALUE}) {
+            LedgerFiles x = Kit.mounted(128, 8, 1);
+            int f = Kit.file(x, "/f");
+            x.fill(f, 0, 1, 0);
+            x.apply();
+            x.fill(f, 0, 1, 200);
+            x.power(1);
+            Kit.call("sync() whose sync fails", Kit.POWER, () -> x.sync(f));
+            x.restart(seed);
+            Kit.due("the block, seed " + seed, x.byteAt(62, 0), chosen(seed, 1, 1) == 0 ? 0 : 200);
+        }
+    }
+
     public static void main(String[] args) {
         promise38Power();
         promise38TapeStays();
         promise39Crash();
         promise40Restart();
         promise40NothingWaits();
+        promise38Zero();
+        promise38TakenBack();
+        promise39WhatWaits();
+        promise40BlocksByRisingNumbers();
+        promise40Extremes();
         Kit.done();
     }
 }

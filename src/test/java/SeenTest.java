@@ -196,6 +196,79 @@ public final class SeenTest {
         Kit.call("count(18) when not mounted", Kit.ARGUMENT, () -> x.count(18));
     }
 
+    private static void promise41Edges() {
+        LedgerFiles x = new LedgerFiles(1024, 8, 16);
+        Kit.due("the last byte of the last block", x.byteAt(1023, 127), 0);
+        Kit.call("a block behind it", Kit.NO_ELEMENT, () -> x.byteAt(1024, 127));
+        Kit.call("a byte behind it", Kit.NO_ELEMENT, () -> x.byteAt(1023, 128));
+        Kit.due("waiting of the last", x.waiting(1023), 0);
+        Kit.call("waiting behind it", Kit.NO_ELEMENT, () -> x.waiting(1024));
+        x.format();
+        x.mount();
+        Kit.due("seen of the last", x.seen(1023, 127), 0);
+        Kit.call("seen behind it", Kit.NO_ELEMENT, () -> x.seen(1024, 0));
+        Kit.call("seen of byte 128", Kit.NO_ELEMENT, () -> x.seen(1023, 128));
+        x.crash();
+        Kit.call("byteAt behind it without power", Kit.NO_ELEMENT, () -> x.byteAt(1024, 0));
+        Kit.call("waiting behind it without power", Kit.NO_ELEMENT, () -> x.waiting(-1));
+    }
+
+    private static void promise44Orders() {
+        LedgerFiles x = Kit.mounted(200, 8, 16);
+        Kit.file(x, "/a");
+        Kit.directory(x, "/empty");
+        Kit.file(x, "/b");
+        Kit.remove(x, "/a");
+        Kit.directory(x, "/c");
+        Kit.directory(x, "/c/d");
+        Kit.file(x, "/c/d/e");
+        x.mark(2, Integer.MIN_VALUE);
+        // the slot of /a is /c's: by slots it comes first
+        long h = hash(17, "c", 2, 128, Integer.MIN_VALUE);
+        h = hash(h, "d", 2, 128, 0);
+        h = hash(h, "e", 1, 0, 0) * 31 + 3;
+        h = hash(h * 31 + 3, "empty", 2, 0, 0);
+        h = hash(h * 31 + 3, "b", 1, 0, 0) * 31 + 3;
+        Kit.due("inode 2 is used again", Kit.find(x, "/c"), 2);
+        Kit.due("tree", x.tree(true), h);
+        x.begin();
+        Kit.remove(x, "/b");
+        Kit.due("the group's is seen", x.tree(true) == h, false);
+        x.undo();
+        Kit.due("as before", x.tree(true), h);
+        x.hold(Kit.find(x, "/b"));
+        Kit.remove(x, "/b");
+        long without = x.tree(true);
+        x.mark(4, 5);
+        Kit.due("what is lost is not in it", x.tree(true), without);
+    }
+
+    private static void promise46Edges() {
+        LedgerFiles x = Kit.mounted(128, 4, 1);
+        Kit.due("M 4: fifteen of the nineteen went out of the full buffer", x.count(11), 15);
+        Kit.due("writes and syncs of format()", x.count(8) * 100 + x.count(9), 2103);
+        int f = Kit.file(x, "/f");
+        x.begin();
+        x.fill(f, 0, 200, 1);
+        Kit.due("free, of a group", x.count(0), 64);
+        x.truncate(f, 0);
+        Kit.due("free and resting, of a group", x.count(0) * 10 + x.count(2), 662);
+        x.undo();
+        Kit.due("behind it", x.count(0) * 10 + x.count(2), 660);
+        for (int h = 0; h < 32; h++) {
+            Kit.open(x, "/f", 0);
+        }
+        Kit.due("handles", x.count(17), 32);
+        x.crash();
+        int[] due = {0, 0, 0, 0, 0, 0, 0};
+        for (int what = 0; what < due.length; what++) {
+            Kit.due("count(" + what + ") without power", x.count(what), due[what]);
+        }
+        Kit.due("the last three", x.count(15) + x.count(16) + x.count(17), 0);
+        Kit.call("count(18) without power", Kit.ARGUMENT, () -> x.count(18));
+        Kit.call("count(-1) without power", Kit.ARGUMENT, () -> x.count(-1));
+    }
+
     public static void main(String[] args) {
         promise41ByteAt();
         promise42Waiting();
@@ -205,6 +278,9 @@ public final class SeenTest {
         promise44Holes();
         promise45Check();
         promise46Count();
+        promise41Edges();
+        promise44Orders();
+        promise46Edges();
         Kit.done();
     }
 }

@@ -259,6 +259,99 @@ public final class WholeTest {
         Kit.run("unmount() without power", Kit.STATE, z::unmount);
     }
 
+    private static void promise5OneEntry() {
+        LedgerFiles x = Kit.mounted(128, 8, 1);
+        x.mark(1, 77);
+        Kit.due("an entry", x.count(4), 1);
+        x.crash();
+        x.restart(1);
+        Kit.call("mount() with one entry", 1, x::mount);
+        Kit.due("mark", x.about(1, 2), 77);
+        Kit.due("it is applied", x.count(4) * 10 + x.byteAt(45, 8), 77);
+    }
+
+    private static void promise5LastWriteWaits() {
+        // only the last sync of a flush is missing: block 1 waits, and the power's x says whether it is there
+        int[] seen = new int[2];
+        for (int seed = 0; seed < 20; seed++) {
+            LedgerFiles x = Kit.mounted(128, 8, 1);
+            x.power(4);
+            Kit.call("mark()", Kit.POWER, () -> x.mark(1, 77));
+            Kit.due("a block waits", x.restart(seed), 1);
+            int entries = (int) Kit.onDisk(x, 1, 0, 2);
+            seen[entries]++;
+            Kit.due("mount() tells as many entries as block 1", x.mount(), entries);
+            Kit.due("the change is there, or not", x.about(1, 2), 77 * entries);
+            Kit.due("TURN", x.count(5), 2 * entries);
+        }
+        Kit.due("both came", seen[0] > 0 && seen[1] > 0, true);
+    }
+
+    private static void promise5ThrowsChangesNothing() {
+        LedgerFiles x = new LedgerFiles(128, 8, 4);
+        x.feed(1, 2, 3, 4, 5);
+        Kit.call("mount() of a new disk", Kit.ARGUMENT, x::mount);
+        Kit.due("steps", x.count(8) + x.count(9), 0);
+        Kit.due("the tape", x.count(12), 20);
+        Kit.due("format() goes on", x.format(), 67);
+        Kit.call("then mount()", 0, x::mount);
+    }
+
+    private static void promise5LostGoAndPowerFails() {
+        for (int steps = 0; steps < 9; steps++) {
+            LedgerFiles x = Kit.mounted(128, 8, 1);
+            int f = Kit.file(x, "/f");
+            x.hold(f);
+            Kit.remove(x, "/f");
+            x.apply();
+            x.crash();
+            x.restart(1);
+            // 44 and 45 as two values, block 2, a sync, block 1, a sync
+            x.power(steps);
+            int entries = steps < 6 ? -1 : x.mount();
+            if (steps < 6) {
+                Kit.call("mount() with " + steps + " steps", Kit.POWER, x::mount);
+                x.restart(steps);
+                x.mount();
+            }
+            Kit.due("entries", entries, steps < 6 ? -1 : 0);
+            Kit.due("what was lost went", x.count(15) * 100 + x.count(1), 63);
+            Kit.due("check", x.check(), 0);
+        }
+    }
+
+    private static void promise6GroupIsUndone() {
+        LedgerFiles x = Kit.mounted(128, 8, 16);
+        int f = Kit.file(x, "/f");
+        Kit.write(x, f, 0, "old");
+        x.begin();
+        Kit.write(x, f, 0, "new and longer");
+        Kit.remove(x, "/f");
+        x.unmount();
+        x.mount();
+        Kit.due("the name is there", Kit.find(x, "/f"), f);
+        Kit.due("bytes that were written stay, the size does not", Kit.text(x, f), "new");
+        Kit.due("check", x.check(), 0);
+    }
+
+    private static void promise6PowerFails() {
+        // the value, block 2, a sync, block 1, a sync; block 45, a sync, block 1, a sync; a sync
+        for (int steps = 0; steps < 10; steps++) {
+            LedgerFiles x = Kit.mounted(128, 8, 16);
+            x.mark(1, 5);
+            x.power(steps);
+            Kit.run("unmount() with " + steps + " steps", Kit.POWER, x::unmount);
+            x.restart(steps);
+            x.mount();
+            Kit.due("none of it by halves", x.about(1, 2) == 5 || x.about(1, 2) == 0 && steps < 5, true);
+        }
+        LedgerFiles y = Kit.mounted(128, 8, 16);
+        y.mark(1, 5);
+        y.power(10);
+        Kit.run("unmount() with 10 steps", "", y::unmount);
+        Kit.due("the power is on", y.count(14), 1);
+    }
+
     public static void main(String[] args) {
         promise4Layout();
         promise4Steps();
@@ -274,6 +367,12 @@ public final class WholeTest {
         promise6Unmount();
         promise6TwoChanges();
         promise6Steps();
+        promise5OneEntry();
+        promise5LastWriteWaits();
+        promise5ThrowsChangesNothing();
+        promise5LostGoAndPowerFails();
+        promise6GroupIsUndone();
+        promise6PowerFails();
         Kit.done();
     }
 }
