@@ -696,6 +696,63 @@ public final class FilesTest {
         Kit.call("name 0 of none", Kit.NO_ELEMENT, () -> x.entry(1, 0));
     }
 
+    private static void promise14FlushesThenApplies() {
+        // block 62 was a directory's and is in the log; the queue has other changes when a file takes it
+        LedgerFiles x = withFile(128, 8, 16);
+        Kit.file(x, "/d/x");
+        x.flush();
+        Kit.clear(x, "/d");
+        x.flush();
+        x.mark(1, 5);
+        x.mark(3, 6);
+        int turn = x.count(5);
+        Kit.due("changes and entries", x.count(3) * 10 + (x.count(4) > 5 ? 1 : 0), 21);
+        Kit.write(x, 3, 0, "bytes");
+        Kit.due("the block", x.where(3, 0), 62);
+        Kit.due("FLUSH, APPLY: its own change alone is in the queue", x.count(3) * 10 + x.count(4), 10);
+        Kit.due("TURN", x.count(5) - turn, 2);
+        Kit.due("marks are in their places", x.byteAt(45, 8) * 10 + x.byteAt(45, 64 + 8), 56);
+        Kit.due("text", Kit.text(x, 3), "bytes");
+    }
+
+    private static void promise18TablesThatAreNotThere() {
+        LedgerFiles x = withFile(200, 8, 16);
+        x.fill(3, 0, 1, 0);
+        x.truncate(3, 400000);
+        Kit.due("holes with no tables do not count", x.punch(3, 0, 400000), 1);
+        for (int i = 0; i < 5; i++) {
+            x.fill(3, 1024 + 1600 * i, 1600, 1);
+        }
+        Kit.due("63 blocks of one table count once", x.punch(3, 0, 400000), 63);
+        Kit.due("tables", x.about(3, 3), 1);
+    }
+
+    private static void promise18TablesOfBytesThatAreZero() {
+        // it is the numbers in tables that count, whatever the bytes of the blocks are
+        LedgerFiles x = withFile(300, 8, 16);
+        for (int j = 0; j < 33; j++) {
+            x.fill(3, 9216 + 8192 * j, 1, 0);
+        }
+        Kit.due("33 tables", x.punch(3, 0, 400000), -12);
+        Kit.due("the last byte of the last block is not in it", x.punch(3, 0, 9216 + 8192 * 32 + 127), 32);
+        Kit.due("one is left", x.about(3, 3), 33 + 1 + 1);
+    }
+
+    private static void promise16CommitIsLast() {
+        // with G 1 the change is flushed: the bytes that were put ahead of it are settled with it
+        LedgerFiles x = withFile(128, 8, 1);
+        x.fill(3, 0, 300, 5);
+        x.apply();
+        x.truncate(3, 200);
+        Kit.due("the buffer behind truncate()", x.count(6), 0);
+        Kit.due("the cut end on the disk", x.byteAt(x.where(3, 1), 72), 0);
+        x.fill(3, 200, 200, 5);
+        Kit.due("the buffer behind fill()", x.count(6), 0);
+        Kit.due("punch", x.punch(3, 100, 200), 1);
+        Kit.due("the buffer behind punch()", x.count(6), 0);
+        Kit.due("the 0s on the disk", x.byteAt(x.where(3, 0), 100) + x.byteAt(x.where(3, 2), 0), 0);
+    }
+
     public static void main(String[] args) {
         promise14Write();
         promise14Wrong();
@@ -733,6 +790,10 @@ public final class FilesTest {
         promise19Edges();
         promise23Edges();
         promise24Gaps();
+        promise14FlushesThenApplies();
+        promise18TablesThatAreNotThere();
+        promise18TablesOfBytesThatAreZero();
+        promise16CommitIsLast();
         Kit.done();
     }
 }

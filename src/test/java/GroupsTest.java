@@ -504,6 +504,77 @@ public final class GroupsTest {
         Kit.due("then that", x.apply() * 10 + x.byteAt(45, 8), 12);
     }
 
+    private static void promise34TheLastInode() {
+        LedgerFiles x = Kit.mounted(200, 8, 16);
+        for (int i = 2; i <= 63; i++) {
+            Kit.file(x, "/f" + i);
+        }
+        x.begin();
+        int h = Kit.open(x, "/last", 4);
+        Kit.due("inode", x.look(h, 0), 64);
+        x.hold(64);
+        x.undo();
+        Kit.due("the handle is free", x.count(17), 0);
+        Kit.due("made anew it is not held", x.about(Kit.file(x, "/last"), 6), 0);
+    }
+
+    private static void promise35GroupsBlocksRestOn() {
+        LedgerFiles x = Kit.mounted(200, 8, 16);
+        int f = Kit.file(x, "/f");
+        x.fill(f, 0, 640, 1);
+        x.flush();
+        x.punch(f, 256, 128);
+        Kit.due("one rests for the queue", x.count(2), 1);
+        x.begin();
+        x.punch(f, 128, 128);
+        Kit.due("one for the group, too", x.count(2), 2);
+        Kit.due("flush", x.flush(), 1);
+        Kit.due("the group's rests on", x.count(2), 1);
+        Kit.write(x, f, 640, "a");
+        Kit.due("the queue's is taken", x.where(f, 5), 64);
+        Kit.write(x, f, 768, "b");
+        Kit.due("the group's is not", x.where(f, 6), 67);
+        Kit.due("end", x.end(), 2);
+        Kit.due("it rests for the change", x.count(2), 1);
+        Kit.write(x, f, 896, "c");
+        Kit.due("so it is not taken", x.where(f, 7), 68);
+        x.flush();
+        Kit.due("behind it none rests", x.count(2), 0);
+        Kit.write(x, f, 1024, "d");
+        Kit.due("then it is taken: the first table", Kit.seen(x, 45, 32 + 28, 2), 63);
+        Kit.due("check", x.check(), 0);
+    }
+
+    private static void promise35BlockOneElseZero() {
+        LedgerFiles x = Kit.mounted(200, 8, 16);
+        for (int i = 0; i < 12; i++) {
+            Kit.file(x, "/f" + i);
+        }
+        x.flush();
+        Kit.due("entries", x.count(4), 8);
+        int bytes = 0;
+        for (int i = 10; i < 128; i++) {
+            bytes += x.byteAt(1, i);
+        }
+        Kit.due("block 1 behind its SUM", bytes, 0);
+        bytes = 0;
+        for (int i = 16; i < 128; i++) {
+            bytes += x.byteAt(2, i);
+        }
+        Kit.due("block 2 behind its numbers", bytes, 0);
+    }
+
+    private static void promise36ItsOwnBlocksAlone() {
+        LedgerFiles x = Kit.mounted(200, 64, 16);
+        int f = Kit.file(x, "/f");
+        int g = Kit.file(x, "/g");
+        x.fill(f, 0, 500, 1);
+        x.fill(g, 0, 100, 1);
+        Kit.due("blocks of another one", x.about(f, 3), 4);
+        Kit.due("sync", x.sync(g), 1);
+        Kit.due("the other's stay in the buffer", x.count(6), 4);
+    }
+
     public static void main(String[] args) {
         promise32Begin();
         promise33End();
@@ -530,6 +601,10 @@ public final class GroupsTest {
         promise35InAGroup();
         promise36Edges();
         promise37InAGroup();
+        promise34TheLastInode();
+        promise35GroupsBlocksRestOn();
+        promise35BlockOneElseZero();
+        promise36ItsOwnBlocksAlone();
         Kit.done();
     }
 }

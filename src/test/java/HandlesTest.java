@@ -327,6 +327,17 @@ public final class HandlesTest {
         Kit.due("place stays", x.look(h, 1), 400000);
     }
 
+    private static void promise26PlaceIsZero() {
+        LedgerFiles x = Kit.mounted(200, 8, 16);
+        Kit.file(x, "/f");
+        Kit.open(x, "/f", 1);
+        x.seek(0, 77);
+        x.close(0);
+        Kit.due("the handle again", Kit.open(x, "/f", 2), 0);
+        Kit.due("its place", x.look(0, 1), 0);
+        Kit.due("its way", x.look(0, 2), 2);
+    }
+
     public static void main(String[] args) {
         promise26Open();
         promise26Wrong();
@@ -343,6 +354,7 @@ public final class HandlesTest {
         promise27Kept();
         promise28Edges();
         promise29Grows();
+        promise26PlaceIsZero();
         Kit.done();
     }
 }

@@ -751,6 +751,152 @@ public final class NamesTest {
         Kit.due("find", Kit.find(x, "/a"), 17);
     }
 
+    private static void promise8BitsOfInodes() {
+        LedgerFiles x = Kit.mounted(128, 8, 16);
+        for (int i = 2; i <= 64; i++) {
+            Kit.file(x, "/f" + i);
+        }
+        for (int i : new int[] {8, 9, 10, 16, 17, 57, 64}) {
+            Kit.remove(x, "/f" + i);
+            Kit.due("bit of inode " + i, Kit.seen(x, 44, 0, 8) >> i - 1 & 1, 0);
+        }
+        Kit.due("the others", Long.bitCount(Kit.seen(x, 44, 0, 8)), 57);
+        Kit.due("check", x.check(), 0);
+    }
+
+    private static void promise9OneChange() {
+        LedgerFiles x = Kit.mounted(128, 8, 16);
+        Kit.file(x, "/f");
+        Kit.file(x, "/g");
+        Kit.due("in place of a file", Kit.rename(x, "/f", "/g"), 0);
+        Kit.due("one change", x.count(3), 3);
+        Kit.due("to a new name", Kit.rename(x, "/g", "/h"), 0);
+        Kit.due("one change", x.count(3), 4);
+        x.flush();
+        x.crash();
+        x.restart(1);
+        x.mount();
+        Kit.due("find", Kit.find(x, "/h"), 2);
+    }
+
+    private static void promise11BelowADirectory() {
+        LedgerFiles x = Kit.mounted(128, 8, 16);
+        Kit.directory(x, "/a");
+        Kit.file(x, "/b");
+        Kit.directory(x, "/a/b");
+        Kit.file(x, "/a/b/c");
+        Kit.file(x, "/a/d");
+        Kit.due("a directory in a directory", Kit.clear(x, "/a/b"), 2);
+        Kit.due("its name is free", Kit.find(x, "/a/b"), -1);
+        Kit.due("a file in a directory", Kit.clear(x, "/a/d"), 1);
+        Kit.due("others stay", Kit.find(x, "/b") * 10 + Kit.find(x, "/a"), 32);
+        Kit.due("names", x.about(1, 4) * 10 + x.about(2, 4), 20);
+        Kit.due("check", x.check(), 0);
+    }
+
+    private static void promise12CountsItsOwnBlocksAlone() {
+        LedgerFiles x = Kit.mounted(128, 8, 16);
+        int far = Kit.file(x, "/far");
+        x.fill(far, 0, 1, 1);
+        x.fill(far, 9216, 1, 1);
+        int f = Kit.file(x, "/f");
+        x.fill(f, 0, 1, 1);
+        int big = Kit.file(x, "/big");
+        Kit.fillUp(x, big, 1);
+        Kit.due("blocks of another one", x.about(far, 3), 4);
+        Kit.due("a copy of one block", Kit.copy(x, "/f", "/c"), 5);
+        Kit.due("none is free", x.count(0), 0);
+    }
+
+    private static void promise13Beginnings() {
+        LedgerFiles x = Kit.mounted(128, 8, 16);
+        int f = Kit.file(x, "/abc");
+        Kit.due("a name that begins alike", Kit.find(x, "/ab"), -1);
+        Kit.due("one that is longer", Kit.find(x, "/abcd"), -1);
+        Kit.due("the name", Kit.find(x, "/abc"), f);
+        Kit.due("made beside it", Kit.file(x, "/ab"), 3);
+        Kit.due("made beside it", Kit.file(x, "/abcd"), 4);
+        Kit.due("removed", Kit.remove(x, "/abc"), 0);
+        Kit.due("the others stay", Kit.find(x, "/ab") * 10 + Kit.find(x, "/abcd"), 34);
+        Kit.due("it is gone", Kit.find(x, "/abc"), -1);
+    }
+
+    private static void promise9AllInOneChange() {
+        LedgerFiles x = Kit.mounted(128, 8, 16);
+        Kit.file(x, "/f");
+        Kit.file(x, "/g");
+        Kit.rename(x, "/f", "/g");
+        x.flush();
+        x.crash();
+        x.restart(1);
+        x.mount();
+        Kit.due("what lost its name went with it", x.about(3, 0), -11);
+        Kit.due("check", x.check(), 0);
+        Kit.due("find", Kit.find(x, "/g"), 2);
+    }
+
+    private static void promise9LongNames() {
+        LedgerFiles x = Kit.mounted(128, 8, 16);
+        Kit.directory(x, "/d");
+        Kit.directory(x, "/dd");
+        Kit.directory(x, "/abc");
+        Kit.directory(x, "/abd");
+        Kit.directory(x, "/d/abc");
+        Kit.due("into one whose name is a beginning of it", Kit.rename(x, "/dd", "/d/x"), 0);
+        Kit.due("into one whose last letter is another one", Kit.rename(x, "/abc", "/abd/x"), 0);
+        Kit.due("into itself", Kit.rename(x, "/abd", "/abd/x/y"), -9);
+        Kit.due("into itself, two names", Kit.rename(x, "/d/abc", "/d/abc/y"), -9);
+        Kit.due("into another one below the same", Kit.rename(x, "/d/abc", "/d/x/abc"), 0);
+        Kit.due("into another one, the last letter differs", Kit.rename(x, "/d/x/abc", "/d/x/abd/x"), -1);
+        Kit.due("check", x.check(), 0);
+    }
+
+    private static void promise9LongPaths() {
+        LedgerFiles x = Kit.mounted(128, 8, 16);
+        StringBuilder path = new StringBuilder();
+        for (int i = 0; i < 15; i++) {
+            path.append("/thirteen-13-").append((char) ('a' + i));
+            Kit.directory(x, path.toString());
+        }
+        int f = Kit.file(x, path + "/thirteen-13-x");
+        Kit.due("two paths of 224 bytes", Kit.rename(x, path + "/thirteen-13-x", path + "/thirteen-13-y"), 0);
+        Kit.due("find", Kit.find(x, path + "/thirteen-13-y"), f);
+        Kit.due("link", Kit.link(x, path + "/thirteen-13-y", path + "/thirteen-13-z"), 2);
+        Kit.due("copy", Kit.copy(x, path + "/thirteen-13-y", path + "/thirteen-13-c"), f + 1);
+        Kit.due("17 names", Kit.rename(x, path + "/thirteen-13-y", path + "/a/b"), -6);
+    }
+
+    private static void promise12CommitIsLast() {
+        LedgerFiles x = Kit.mounted(128, 8, 1);
+        int f = Kit.file(x, "/f");
+        x.fill(f, 0, 300, 5);
+        x.apply();
+        int c = Kit.copy(x, "/f", "/c");
+        Kit.due("its bytes were settled with its change", x.count(6), 0);
+        x.crash();
+        x.restart(1);
+        x.mount();
+        Kit.due("find", Kit.find(x, "/c"), c);
+        Kit.due("blocks", x.about(c, 3), 3);
+        Kit.due("its last byte", x.read(c, 299), x.read(f, 299));
+        Kit.due("check", x.check(), 0);
+    }
+
+    private static void promise12ZerosBehindSizeInALaterBlock() {
+        LedgerFiles x = Kit.mounted(128, 8, 4);
+        int f = Kit.file(x, "/f");
+        x.fill(f, 0, 130, 1);
+        x.begin();
+        Kit.write(x, f, 130, "behind");
+        x.undo();
+        int c = Kit.copy(x, "/f", "/c");
+        x.truncate(f, 140);
+        x.truncate(c, 140);
+        Kit.due("what stands there is seen", x.read(f, 130), (int) 'b');
+        Kit.due("the copy's is 0", x.read(c, 130), 0);
+        Kit.due("below the size it is the same", x.read(c, 129), x.read(f, 129));
+    }
+
     public static void main(String[] args) {
         promise7Make();
         promise7Slots();
@@ -787,6 +933,16 @@ public final class NamesTest {
         promise12Edges();
         promise12TablesAheadOfInodes();
         promise13Deep();
+        promise8BitsOfInodes();
+        promise9OneChange();
+        promise11BelowADirectory();
+        promise12CountsItsOwnBlocksAlone();
+        promise13Beginnings();
+        promise9AllInOneChange();
+        promise9LongNames();
+        promise9LongPaths();
+        promise12CommitIsLast();
+        promise12ZerosBehindSizeInALaterBlock();
         Kit.done();
     }
 }

@@ -93,11 +93,26 @@ public final class TapeTest {
         Kit.due("back of the highest int", x.back(Integer.MAX_VALUE), -1);
     }
 
+    private static void promise2OneByteTooMany() {
+        LedgerFiles x = new LedgerFiles(200, 8, 4);
+        for (int i = 0; i < 51; i++) {
+            x.feed(0, 0, 0, 0, 0);
+        }
+        Kit.due("back to 1,005", x.back(15), 1005);
+        Kit.due("1,025 are too many", x.feed(1, 1, 1, 1, 1), -1);
+        Kit.due("nothing came", x.count(12), 1005);
+        Kit.due("back to 1,004", x.back(1), 1004);
+        Kit.due("1,024 are not", x.feed(1, 1, 1, 1, 1), 1024);
+        Kit.due("back(1025)", x.back(1025), -1);
+        Kit.due("back(1024)", x.back(1024), 0);
+    }
+
     public static void main(String[] args) {
         promise1NewObject();
         promise1BufferAndGroup();
         promise2Feed();
         promise3Back();
+        promise2OneByteTooMany();
         Kit.done();
     }
 }

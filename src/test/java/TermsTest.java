@@ -69,6 +69,7 @@ public final class TermsTest {
         Kit.due("256 values wait, of 257", x.count(7), 256);
         Kit.due("of the first block", x.waiting(62), 51);
         Kit.due("of the second one", x.waiting(63), 52);
+        Kit.due("a block that was never written", x.byteAt(120, 0) + x.byteAt(120, 127) + x.seen(127, 5), 0);
         x.crash();
         x.restart(keeping(0, 51));
         Kit.due("the one that was written first is synced", x.byteAt(62, 0), 100);

@@ -352,6 +352,120 @@ public final class WholeTest {
         Kit.due("the power is on", y.count(14), 1);
     }
 
+    private static void promise4BlocksThatWereNeverWritten() {
+        LedgerFiles x = Kit.mounted(128, 8, 4);
+        int bytes = 0;
+        for (int b = 61; b < 128; b++) {
+            bytes += x.byteAt(b, 0) + x.byteAt(b, 127) + x.seen(b, 0) + x.seen(b, 127);
+        }
+        for (int b = 2; b < 43; b++) {
+            bytes += x.byteAt(b, 0) + x.byteAt(b, 127);
+        }
+        Kit.due("bytes of blocks that format() does not write", bytes, 0);
+    }
+
+    private static void promise4FirstSyncFails() {
+        // block 0, full of 0, waits: it is kept or not
+        int mounts = 0;
+        for (long seed = 0; seed < 20; seed++) {
+            LedgerFiles x = Kit.mounted(128, 8, 4);
+            x.unmount();
+            x.power(1);
+            Kit.call("format() whose first sync fails", Kit.POWER, x::format);
+            Kit.due("a value of block 0 waits", x.waiting(0), 1);
+            Kit.due("the disk reads it", x.byteAt(0, 0), 0);
+            Kit.due("restart()", x.restart(seed), 1);
+            long v = seed * 6364136223846793005L + 1442695040888963407L;
+            boolean stays = (v >>> 33) % 2 == 0;
+            Kit.due("the head's first byte", x.byteAt(0, 0), stays ? 1414874188 & 255 : 0);
+            Kit.call("mount()", stays ? 0 : Kit.ARGUMENT, x::mount);
+            mounts += stays ? 1 : 0;
+        }
+        Kit.due("both came", mounts > 0 && mounts < 20, true);
+    }
+
+    private static void promise4OverALog() {
+        LedgerFiles x = Kit.mounted(128, 8, 1);
+        Kit.file(x, "/f");
+        Kit.due("entries", x.count(4), 4);
+        x.crash();
+        x.restart(1);
+        Kit.due("format()", x.format(), 67);
+        Kit.due("block 1: no entries, TURN 0", Kit.onDisk(x, 1, 0, 6), 0);
+        Kit.due("its SUM", (int) Kit.onDisk(x, 1, 6, 4), sumOfSix(0));
+        Kit.due("blocks of the old log stay", Kit.onDisk(x, 2, 0, 2), 43);
+        Kit.call("mount()", 0, x::mount);
+        Kit.due("find", Kit.find(x, "/f"), -1);
+    }
+
+    private static void promise5NothingIsLeftOver() {
+        LedgerFiles x = Kit.mounted(128, 8, 16);
+        int f = Kit.file(x, "/f");
+        x.fill(f, 0, 500, 1);
+        x.flush();
+        x.hold(f);
+        Kit.open(x, "/f", 0);
+        x.truncate(f, 100);
+        Kit.file(x, "/g");
+        x.fill(f, 0, 1, 7);
+        Kit.due("rest, queue and buffer", x.count(2) * 100 + x.count(3) * 10 + x.count(6), 321);
+        x.crash();
+        x.restart(0);
+        Kit.due("the buffer behind restart()", x.count(6), 0);
+        x.mount();
+        Kit.due("nothing rests", x.count(2), 0);
+        Kit.due("nothing is held", x.about(f, 6), 0);
+        Kit.due("the queue is empty", x.count(3), 0);
+        Kit.due("the size is as flushed", x.about(f, 1), 500);
+        x.mark(f, 3);
+        Kit.due("one change", x.flush(), 1);
+        Kit.due("of one block", x.count(4), 1);
+        Kit.due("what was not flushed is gone", Kit.find(x, "/g"), -1);
+        Kit.due("what was in the buffer is gone", x.read(f, 0), 1);
+        Kit.due("check", x.check(), 0);
+    }
+
+    private static void promise5NothingIsHeldBehindUnmount() {
+        LedgerFiles x = Kit.mounted(128, 8, 16);
+        int f = Kit.file(x, "/f");
+        x.hold(f);
+        x.hold(f);
+        x.unmount();
+        x.mount();
+        Kit.due("held", x.about(f, 6), 0);
+        Kit.due("release", x.release(f), -9);
+    }
+
+    private static void promise5TheLastInode() {
+        LedgerFiles x = Kit.mounted(128, 8, 16);
+        for (int i = 2; i <= 64; i++) {
+            Kit.file(x, "/f" + i);
+        }
+        x.hold(64);
+        Kit.remove(x, "/f64");
+        x.flush();
+        x.crash();
+        x.restart(1);
+        x.mount();
+        Kit.due("inode 64 was lost and went", x.count(15) * 10 + x.count(1), 1);
+        Kit.due("its kind", x.about(64, 0), -11);
+        Kit.due("check", x.check(), 0);
+    }
+
+    private static void promise6AppliesThenSettles() {
+        // the log has block 45, the buffer a file's block: APPLY puts the one and settles both, by rising numbers
+        LedgerFiles x = Kit.mounted(128, 8, 16);
+        int f = Kit.file(x, "/f");
+        x.fill(f, 0, 1, 1);
+        x.apply();
+        x.mark(f, 7);
+        x.flush();
+        x.fill(f, 0, 1, 2);
+        x.power(1);
+        Kit.run("unmount() with one step", Kit.POWER, x::unmount);
+        Kit.due("block 45 is written first", x.waiting(45) * 10 + x.waiting(62), 10);
+    }
+
     public static void main(String[] args) {
         promise4Layout();
         promise4Steps();
@@ -373,6 +487,13 @@ public final class WholeTest {
         promise5LostGoAndPowerFails();
         promise6GroupIsUndone();
         promise6PowerFails();
+        promise4BlocksThatWereNeverWritten();
+        promise4FirstSyncFails();
+        promise4OverALog();
+        promise5NothingIsLeftOver();
+        promise5NothingIsHeldBehindUnmount();
+        promise5TheLastInode();
+        promise6AppliesThenSettles();
         Kit.done();
     }
 }
