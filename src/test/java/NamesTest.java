@@ -897,6 +897,55 @@ public final class NamesTest {
         Kit.due("below the size it is the same", x.read(c, 129), x.read(f, 129));
     }
 
+    /** A call that reads the tape, with a full one: 1,023 bytes and a last one. */
+    private static void fullTape(LedgerFiles x, char first, char last) {
+        StringBuilder text = new StringBuilder().append(first);
+        while (text.length() < 1023) {
+            text.append('a');
+        }
+        text.append(last);
+        for (int at = 0; at < 1000; at += 20) {
+            Kit.tape(x, text.substring(at, at + 20));
+        }
+        Kit.tape(x, text.substring(1000, 1004));
+        Kit.tape(x, text.substring(1004));
+        Kit.due("a full tape", x.count(12), 1024);
+    }
+
+    private static void promise9WhatWentFromTheTape() {
+        LedgerFiles x = Kit.mounted(128, 8, 16);
+        Kit.file(x, "/g");
+        Kit.tape(x, "/g\0/h");
+        x.back(2);
+        Kit.due("the second path went by back()", x.rename(), -6);
+        Kit.tape(x, "/g\0/h");
+        x.back(3);
+        Kit.due("the byte 0, too", x.rename(), -6);
+        Kit.tape(x, "/g");
+        x.back(2);
+        Kit.due("all went", x.find(), -6);
+        Kit.tape(x, "/g");
+        x.back(1);
+        Kit.due("the name went", x.find(), 1);
+        Kit.due("nothing was fed", x.find(), -6);
+    }
+
+    private static void promise9FullTape() {
+        LedgerFiles x = Kit.mounted(128, 8, 16);
+        Kit.file(x, "/g");
+        fullTape(x, '/', 'a');
+        Kit.due("find", x.find(), -6);
+        fullTape(x, '/', '\0');
+        Kit.due("rename, the byte 0 is the last", x.rename(), -6);
+        fullTape(x, '\0', '/');
+        Kit.due("link, the byte 0 is the first", x.link(), -6);
+        fullTape(x, '/', '/');
+        Kit.due("make", x.make(false), -6);
+        fullTape(x, 'a', 'z');
+        Kit.due("write", x.write(2, 0), 1024);
+        Kit.due("its last byte", x.read(2, 1023), (int) 'z');
+    }
+
     public static void main(String[] args) {
         promise7Make();
         promise7Slots();
@@ -943,6 +992,8 @@ public final class NamesTest {
         promise9LongPaths();
         promise12CommitIsLast();
         promise12ZerosBehindSizeInALaterBlock();
+        promise9WhatWentFromTheTape();
+        promise9FullTape();
         Kit.done();
     }
 }
